@@ -689,9 +689,16 @@ public final class PackingHouse {
         }
 
         void addSpan(int[] from, int begin, int end) {
-            for (int i = Math.max(0, begin); i < end && i < from.length && !over; i++) {
-                add(from[i]);
+            int many = Math.min(end, from.length) - begin;
+            if (begin < 0 || many <= 0) {
+                return;
             }
+            if (many > cells.length - count) {
+                over = true;
+                return;
+            }
+            System.arraycopy(from, begin, cells, count, many);
+            count += many;
         }
 
         /** By octets of 7 bits, the lowest first. */
@@ -868,7 +875,10 @@ public final class PackingHouse {
         }
 
         void tell(int which) {
-            tellAt(which, last);
+            if (rule == 0) {
+                rule = which;
+                place = last;
+            }
         }
 
         void tellAt(int which, int where) {
@@ -896,6 +906,12 @@ public final class PackingHouse {
             last = next;
             next++;
             return cells[last];
+        }
+
+        void pass(int octets) {
+            for (int i = 0; i < octets && rule == 0; i++) {
+                take();
+            }
         }
 
         void expect(int octet, int otherwise) {
@@ -992,12 +1008,13 @@ public final class PackingHouse {
             if (rule != 0) {
                 return;
             }
-            if (out.count >= STREAM_MOST) {
+            if (out.count >= STREAM_MOST || out.count >= out.cells.length) {
                 rule = 13;
                 place = last;
                 return;
             }
-            out.add(v);
+            out.cells[out.count] = v & 255;
+            out.count++;
         }
 
         void emitTaken(long many) {
@@ -1105,7 +1122,9 @@ public final class PackingHouse {
             }
             // halving ends: when all counts are 1 no length is above 9
             for (int round = 0; round < 40; round++) {
-                joinAll(n);
+                int leaves = orderLeaves(n);
+                joinAll(leaves);
+                tellLengths(n, leaves);
                 settle(n);
                 if (greatest <= limit) {
                     return;
@@ -1116,8 +1135,7 @@ public final class PackingHouse {
             }
         }
 
-        private void joinAll(int n) {
-            int leaves = orderLeaves(n);
+        private void joinAll(int leaves) {
             for (int i = 0; i < leaves; i++) {
                 weights[i] = counts[ordered[i]];
             }
@@ -1133,7 +1151,6 @@ public final class PackingHouse {
                     weights[next] += weights[least];
                 }
             }
-            tellLengths(n, leaves);
         }
 
         /** Leaves by their counts, of the same count in the order of symbols. */
@@ -2081,15 +2098,15 @@ public final class PackingHouse {
         }
 
         private static void storedBlocks(Row text, Row out) {
-            int from = 0;
-            for (int i = 0; i == 0 || from < text.count; i++) {
+            int many = Math.max(1, (text.count + STORED_MOST - 1) / STORED_MOST);
+            for (int i = 0; i < many; i++) {
+                int from = i * STORED_MOST;
                 int to = Math.min(text.count, from + STORED_MOST);
-                out.lowBits(to == text.count ? 1 : 0, 3);
+                out.lowBits(i == many - 1 ? 1 : 0, 3);
                 out.closeOctet();
                 out.addLow(to - from, 2);
                 out.addLow(~(to - from), 2);
                 out.addSpan(text.cells, from, to);
-                from = to;
             }
         }
 
@@ -2100,12 +2117,13 @@ public final class PackingHouse {
         }
 
         private void ownBlocks(Row text, Row out) {
+            int many = Math.max(1, (text.count + Finder.SPAN - 1) / Finder.SPAN);
             int from = 0;
-            for (int end = Finder.SPAN; end == Finder.SPAN || end < text.count + Finder.SPAN; end += Finder.SPAN) {
+            for (int i = 0; i < many; i++) {
                 int to = from;
-                for (; to < finder.tokens && finder.places[to] < end; to++) {
+                for (; to < finder.tokens && finder.places[to] < (i + 1) * Finder.SPAN; to++) {
                 }
-                ownBlock(text, from, to, end >= text.count, out);
+                ownBlock(text, from, to, i == many - 1, out);
                 from = to;
             }
         }
@@ -2265,9 +2283,9 @@ public final class PackingHouse {
             if (flags >= 32) {
                 in.tell(32);
             }
-            in.takeLow(6);
+            in.pass(6);
             if ((flags & 4) != 0) {
-                in.takeLow((int) in.takeLow(2));
+                in.pass((int) in.takeLow(2));
             }
             if ((flags & 8) != 0) {
                 passText(in);
@@ -2295,30 +2313,23 @@ public final class PackingHouse {
             boolean isLast = false;
             for (int i = 0; i < MANY && !isLast && in.rule == 0; i++) {
                 isLast = in.takeBits(1) == 1;
-                int type = (int) in.takeBits(2);
-                if (in.rule == 0) {
-                    openBlock(in, type, reach);
+                switch ((int) in.takeBits(2)) {
+                    case 0:
+                        openStored(in);
+                        break;
+                    case 1:
+                        openSymbols(in, fixedFirst, fixedOther, reach);
+                        break;
+                    case 2:
+                        openCodes(in);
+                        openSymbols(in, first, other, reach);
+                        break;
+                    default:
+                        in.tell(2);
+                        break;
                 }
             }
             in.closeOctet();
-        }
-
-        private void openBlock(Source in, int type, int reach) {
-            switch (type) {
-                case 0:
-                    openStored(in);
-                    break;
-                case 1:
-                    openSymbols(in, fixedFirst, fixedOther, reach);
-                    break;
-                case 2:
-                    openCodes(in);
-                    openSymbols(in, first, other, reach);
-                    break;
-                default:
-                    in.tell(2);
-                    break;
-            }
         }
 
         private static void openStored(Source in) {
@@ -3096,11 +3107,11 @@ public final class PackingHouse {
                     card[k] = names[i].cells[k];
                 }
                 card[Math.min(names[i].count, BENCH_NAME - 1)] = 47;
-                figuresIn(16, times[i], 10);
-                figuresIn(28, 0, 10);
-                figuresIn(34, 0, 10);
-                figuresIn(40, modes[i], 8);
-                figuresIn(48, texts[i].count, 10);
+                figuresIn(16, times[i], true);
+                figuresIn(28, 0, true);
+                figuresIn(34, 0, true);
+                figuresIn(40, modes[i], false);
+                figuresIn(48, texts[i].count, true);
                 card[58] = 96;
                 card[59] = 10;
                 out.addSpan(card, 0, BENCH_ROW);
@@ -3111,7 +3122,8 @@ public final class PackingHouse {
             }
         }
 
-        private void figuresIn(int place, int v, int base) {
+        private void figuresIn(int place, int v, boolean tens) {
+            int base = tens ? 10 : 8;
             int figures = 1;
             for (int rest = v / base; rest > 0; rest /= base) {
                 figures++;
@@ -3420,7 +3432,7 @@ public final class PackingHouse {
         }
 
         void make(Row text, int dataParts, int checkParts) {
-            data = dataParts;
+            data = Math.max(1, dataParts);
             checks = checkParts;
             total = text.count;
             size = Math.max(1, (total + data - 1) / data);
