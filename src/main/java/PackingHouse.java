@@ -658,7 +658,7 @@ public final class PackingHouse {
         int spare;
 
         Row(int most) {
-            cells = new int[most];
+            cells = new int[Math.max(0, most)];
         }
 
         void clear() {
@@ -830,7 +830,7 @@ public final class PackingHouse {
         /** A number of some octets, LOW FIRST. */
         static long low(int[] cells, int p, int octets) {
             long v = 0;
-            for (int i = 0; i < octets; i++) {
+            for (int i = 0; i < octets && p + i >= 0 && p + i < cells.length; i++) {
                 v |= (long) cells[p + i] << (8 * i);
             }
             return v;
@@ -1341,8 +1341,10 @@ public final class PackingHouse {
         void fewest(Row text, int[] sizePrices) {
             chainUp(text);
             costs[size] = 0;
+            int longer = SIZE_MOST;
             for (int p = size - 1; p >= 0; p--) {
-                cheapest(p, sizePrices);
+                // a match at one place is, less its first octet, one at the next place: none is longer than that
+                longer = 1 + cheapest(p, sizePrices, longer);
             }
             int p = 0;
             for (int i = 0; i < size && p < size; i++) {
@@ -1351,9 +1353,12 @@ public final class PackingHouse {
             }
         }
 
-        /** What follows is priced already; only what is really cheaper takes the place of what came before. */
-        private void cheapest(int p, int[] sizePrices) {
-            int limit = Math.min(SIZE_MOST, size - p);
+        /**
+         * What follows is priced already; only what is really cheaper takes the place of what came before.
+         * Tells how long the matches at the place get, or 2.
+         */
+        private int cheapest(int p, int[] sizePrices, int most) {
+            int limit = Math.min(Math.min(SIZE_MOST, most), size - p);
             costs[p] = (cells[p] < 144 ? 8 : 9) + costs[p + 1];
             cheapSizes[p] = 1;
             cheapGaps[p] = 0;
@@ -1373,6 +1378,7 @@ public final class PackingHouse {
                 best = Math.max(best, n);
                 q = chain[q];
             }
+            return best;
         }
 
         private static int eightsHead(int[] cells, int p) {
@@ -2763,8 +2769,8 @@ public final class PackingHouse {
         }
 
         private void openChoices(Source in, int codeCount) {
-            // six codes in a row, each in three bits, the front one lowest
-            int codeRow = 0x2C688 | 5 << 15;
+            // six codes in a row, a figure in eights each, the front one lowest
+            int codeRow = 0543210;
             for (int i = 0; i < choiceCount && in.rule == 0; i++) {
                 int place = 0;
                 for (; place < codeCount && in.takeBits(1) == 1; place++) {
