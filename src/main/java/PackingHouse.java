@@ -235,6 +235,7 @@ public final class PackingHouse {
         return answer;
     }
 
+    /** How many bits the BLOCKS have, if the kind has any. */
     private int packKind(int kind, int level, Row out) {
         switch (kind) {
             case 1:
@@ -244,11 +245,12 @@ public final class PackingHouse {
                 plain.packWords(tray, out);
                 return 0;
             case 3:
-                return blocks.packAll(tray, level, out);
             case 4:
-                return blocks.packRim(tray, level, out);
             case 5:
-                return blocks.packMember(tray, level, out);
+                blocks.headOut(kind, level, out);
+                int made = blocks.packAll(tray, level, out);
+                blocks.tailOut(kind, tray, out);
+                return made;
             case 6:
                 copies.packFast(tray, out);
                 return 0;
@@ -2057,21 +2059,24 @@ public final class PackingHouse {
             return 5 + GAP_MORE[gapSymbol(gap)];
         }
 
-        int packRim(Row text, int level, Row out) {
-            int head = 120 * 256 + Math.min(level, 3) * 64;
-            out.addHigh(head + (31 - head % 31) % 31, 2);
-            int made = packAll(text, level, out);
-            out.addHigh(Row.adler(text.cells, 0, text.count), 4);
-            return made;
+        /** What stands before the BLOCKS of a RIM, or of a MEMBER. */
+        void headOut(int kind, int level, Row out) {
+            if (kind == 4) {
+                int head = 120 * 256 + Math.min(level, 3) * 64;
+                out.addHigh(head + (31 - head % 31) % 31, 2);
+            } else if (kind == 5) {
+                out.addHigh(0x1F8B0800L, 4);
+                out.addHigh(0xFFL, 6);
+            }
         }
 
-        int packMember(Row text, int level, Row out) {
-            out.addHigh(0x1F8B0800L, 4);
-            out.addHigh(0x00000000_00FFL, 6);
-            int made = packAll(text, level, out);
-            out.addLow(Row.round(text.cells, 0, text.count), 4);
-            out.addLow(text.count, 4);
-            return made;
+        void tailOut(int kind, Row text, Row out) {
+            if (kind == 4) {
+                out.addHigh(Row.adler(text.cells, 0, text.count), 4);
+            } else if (kind == 5) {
+                out.addLow(Row.round(text.cells, 0, text.count), 4);
+                out.addLow(text.count, 4);
+            }
         }
 
         /** How many bits the BLOCKS have. */
