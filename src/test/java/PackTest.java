@@ -152,6 +152,10 @@ public final class PackTest {
         Check.packs("FAST, 13 alike", 6, 0, Check.times('a', 13), Check.octets(19, "a", 1, 0, 80, "aaaaa"));
         Check.packs("FAST, a longer match", 6, 0, Check.times('a', 300),
                 Check.octets(31, "a", 1, 0, 255, 20, 80, "aaaaa"));
+        Check.packs("FAST, 255 more", 6, 0, Check.times('a', 280),
+                Check.octets(31, "a", 1, 0, 255, 0, 80, "aaaaa"));
+        byte[] others = pairs(270);
+        Check.packs("FAST, 255 more literals", 6, 0, others, Check.octets(240, 255, 0, others));
         Check.packs("FRAME, none", 7, 0, new byte[0], Check.hex("04224d186440a700000000055dcc02"));
         Check.packs("FRAME, as it is", 7, 0, Check.octets("abc"),
                 Check.octets(Check.hex("04224d186440a7"), 3, 0, 0, 128, "abc", 0, 0, 0, 0, Check.low(0x32D153FFL, 4)));

@@ -126,7 +126,13 @@ public final class TrayTest {
             Check.due("ROUND", x.sum(1), round.getValue());
             Check.due("TURNED", x.sum(2), turned(text));
         }
-        // these three are published
+        // one half is just 65521, which is 0
+        for (byte[] text : new byte[][] {Check.octets(Check.times(255, 256), 240, 7), Check.octets(Check.times(240, 22), 240)}) {
+            Adler32 adler = new Adler32();
+            adler.update(text);
+            Check.due("ADLER", Check.house(text).sum(0), adler.getValue());
+        }
+        // these are published
         Check.due("TURNED of 1 .. 9", Check.house(Check.octets("123456789")).sum(2), 0xFC891918L);
         Check.due("MIXED of none", new PackingHouse().sum(3), 0x02CC5D05L);
         Check.due("MIXED of a", Check.house(Check.octets("a")).sum(3), 0x550D7456L);
