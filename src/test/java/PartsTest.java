@@ -24,6 +24,11 @@ public final class PartsTest {
         Check.due("there is no SET", x.spoil(0, 0, 1), -1);
         Check.due("there is no SET", x.repair(), -1);
         Check.due("there is no SET", x.whole(), -1);
+        Check.due("seven by one", x.protect(1, 0), 7);
+        Check.due("nothing to repair", x.repair(), 0);
+        int all = x.whole();
+        Check.due("one part", Check.stream(x, all), Check.octets("abcdefg"));
+        x.drop(all);
         Check.due("seven by three", x.protect(3, 0), 3);
         Check.due("the last part", x.part(2, 0), 'g');
         Check.due("filled with 0", x.part(2, 1), 0);

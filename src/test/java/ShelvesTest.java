@@ -102,6 +102,8 @@ public final class ShelvesTest {
         Check.due("wipe", x.wipe(), 16);
         Check.due("wipe again", x.wipe(), 0);
         Check.due("none", x.told(0, 0), -1);
+        Check.due("no NAME", x.nameAt(0, 0), -1);
+        Check.due("no text", x.extract(0), -1);
         Check.due("the NAME at hand stays", x.entry(s, 0, 0), 0);
     }
 
@@ -352,6 +354,7 @@ public final class ShelvesTest {
         row = good.clone();
         row[0] = 0;
         readFaults("a 0", 12, Check.octets(mark, row), 103, 8, 0);
+        readFaults("size 6000", 12, Check.octets(mark, benchRow("a/", "0", "0", "6000")), 1, 68, 0);
         readFaults("size 6001", 12, Check.octets(mark, benchRow("a/", "0", "0", "6001")), 104, 8, 0);
         readFaults("a huge size", 12, Check.octets(mark, benchRow("a/", "0", "0", "9999999999")), 104, 8, 0);
         readFaults("the text lacks", 12, Check.octets(mark, benchRow("a/", "0", "0", "3"), "ab"), 1, 70, 0);

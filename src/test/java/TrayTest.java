@@ -127,7 +127,8 @@ public final class TrayTest {
             Check.due("TURNED", x.sum(2), turned(text));
         }
         // one half is just 65521, which is 0
-        for (byte[] text : new byte[][] {Check.octets(Check.times(255, 256), 240, 7), Check.octets(Check.times(240, 22), 240)}) {
+        for (byte[] text : new byte[][] {Check.octets(Check.times(255, 256), 240),
+            Check.octets(Check.times(255, 256), 240, 7)}) {
             Adler32 adler = new Adler32();
             adler.update(text);
             Check.due("ADLER", Check.house(text).sum(0), adler.getValue());
