@@ -41,6 +41,15 @@ final class BitRow {
         return bits.length();
     }
 
+    /** The number of the octet in which the last bit lies. */
+    int place() {
+        return (bits.length() - 1) / 8;
+    }
+
+    String text() {
+        return bits.toString();
+    }
+
     byte[] octets() {
         close();
         ByteArrayOutputStream out = new ByteArrayOutputStream();

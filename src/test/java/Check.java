@@ -1,27 +1,58 @@
+import java.io.IOException;
+import java.nio.file.Files;
+import java.nio.file.Path;
 import java.util.Arrays;
 import java.util.List;
 
 /** What every test of the project uses: answers are compared, wrong ones are printed and counted. */
 final class Check {
+    private static final Path DOCUMENT = Path.of("../shared/DOC.md");
     private static int wrong = 0;
     private static int asked = 0;
+    private static String about = "";
+    private static String document;
 
     private Check() {
     }
 
-    static void due(String what, long got, long want) {
+    /**
+     * The words of the document that the answers behind this hang on. They have to stand in it as they are, so
+     * that a test whose sentence has changed is seen; SentencesTest looks whether every sentence has a test.
+     */
+    static void says(String words) {
+        about = "'" + words + "': ";
         asked++;
-        if (got != want) {
+        if (!document().isEmpty() && !document().contains(plain(words))) {
             wrong++;
-            System.out.println(what + " answered " + got + ", due is " + want);
+            System.out.println(about + "this does not stand in the document");
         }
+    }
+
+    /** The document, with one blank for each row of blanks and ends of lines; empty if it is not there. */
+    static String document() {
+        if (document == null) {
+            try {
+                document = Files.exists(DOCUMENT) ? plain(Files.readString(DOCUMENT)) : "";
+            } catch (IOException e) {
+                throw new IllegalStateException("can not read " + DOCUMENT, e);
+            }
+        }
+        return document;
+    }
+
+    static String plain(String text) {
+        return text.replaceAll("\\s+", " ");
+    }
+
+    static void due(String what, long got, long want) {
+        due(what, String.valueOf(got), String.valueOf(want));
     }
 
     static void due(String what, String got, String want) {
         asked++;
         if (!got.equals(want)) {
             wrong++;
-            System.out.println(what + " answered " + got + ", due is " + want);
+            System.out.println(about + what + " answered " + got + ", due is " + want);
         }
     }
 
@@ -108,6 +139,13 @@ final class Check {
             all[i] = (byte) house.at(number, i);
         }
         return all;
+    }
+
+    /** All numbers up to 12 are STREAMS then; those that there were stay. */
+    static void useNumbers(PackingHouse house) {
+        for (int i = 0; i < 12; i++) {
+            house.pack(10, 0);
+        }
     }
 
     /** A STREAM of these octets (some 5900 at most), with the least number that is free. */

@@ -25,6 +25,7 @@ public final class LanguageTest {
 
     public static void main(String[] args) throws Exception {
         face();
+        comments();
         classes();
         source();
         Check.end("LanguageTest");
@@ -58,6 +59,35 @@ public final class LanguageTest {
                 Check.holds("no other method bears a name of the face: " + method.getName(),
                         !names.contains(method.getName()));
             }
+        }
+    }
+
+    private static void comments() throws Exception {
+        String text = Files.readString(Path.of("src/main/java/PackingHouse.java"));
+        Check.says("Ahead of the calls `feed`, `fill`, `cut`, `alter`, `octet`, `sum` the interface says: ---- the TRAY.");
+        ahead(text, "the TRAY", "feed", "fill", "cut", "alter", "octet", "sum");
+        Check.says("Ahead of the calls `length`, `at`, `load`, `drop`, `differ` the interface says: ---- STREAMS.");
+        ahead(text, "STREAMS", "length", "at", "load", "drop", "differ");
+        Check.says("Ahead of the calls `pack`, `open`, `fault`, `token`, `bits` the interface says: ---- packing, opening.");
+        ahead(text, "packing, opening", "pack", "open", "fault", "token", "bits");
+        Check.says("Ahead of the calls `name`, `entry`, `write`, `read`, `told`, `nameAt`, `extract`, `wipe` the interface says: "
+                + "---- SHELVES.");
+        ahead(text, "SHELVES", "name", "entry", "write", "read", "told", "nameAt", "extract", "wipe");
+        Check.says("Ahead of the calls `delta`, `apply` the interface says: ---- DELTAS.");
+        ahead(text, "DELTAS", "delta", "apply");
+        Check.says("Ahead of the calls `protect`, `part`, `lose`, `spoil`, `repair`, `whole` the interface says: ---- PARTS.");
+        ahead(text, "PARTS", "protect", "part", "lose", "spoil", "repair", "whole");
+        Check.says("Ahead of the calls `save`, `restore`, `forget`, `shared`, `store` the interface says: ---- the STORE.");
+        ahead(text, "the STORE", "save", "restore", "forget", "shared", "store");
+    }
+
+    /** The last such comment that stands before each of these calls is this one. */
+    private static void ahead(String text, String comment, String... calls) {
+        for (String call : calls) {
+            Matcher head = Pattern.compile("public (int|long) " + call + "\\(").matcher(text);
+            Check.holds("there is " + call, head.find());
+            int begin = text.lastIndexOf("// ---- ", head.start()) + 8;
+            Check.due("ahead of " + call, text.substring(begin, text.indexOf('\n', begin)), comment);
         }
     }
 

@@ -1,345 +1,455 @@
-import java.io.ByteArrayInputStream;
-import java.util.zip.GZIPInputStream;
-import java.util.zip.Inflater;
+import java.math.BigInteger;
+import java.util.Arrays;
+import java.util.HashMap;
+import java.util.Map;
 
-/** Promises 13, 16 and 17: pack, token, bits. */
+/** Promise 13: pack, by the KINDS that are neither BLOCKS nor SORTED. */
 public final class PackTest {
-    public static void main(String[] args) throws Exception {
-        refusals();
+    public static void main(String[] args) {
+        kinds();
+        levels();
+        numbers();
+        trayStays();
+        bitRows();
         runs();
         words();
-        blocks();
-        rimAndMember();
-        fastAndFrame();
+        wordWidths();
+        wordsThatEnd();
+        fast();
+        fastEdges();
+        frame();
         copies();
-        sortedAndOdds();
-        tokens();
-        parses();
-        bits();
-        foreignOpeners();
+        copyEdges();
+        odds();
+        oddsCarry();
         everyKindComesBack();
         Check.end("PackTest");
     }
 
-    private static void refusals() {
+    private static void kinds() {
+        Check.says("-2 no such kind, or level; -4 no number is free, or it would have more than 12000 octets.");
         PackingHouse x = Check.house(Check.octets("abcabcabc"));
-        Check.due("kind 0", x.pack(0, 0), -2);
-        Check.due("kind 11", x.pack(11, 0), -2);
-        Check.due("kind least", x.pack(Integer.MIN_VALUE, 0), -2);
+        for (int kind : new int[] {0, 11, -1, Integer.MIN_VALUE, Integer.MAX_VALUE}) {
+            Check.due("kind " + kind, x.pack(kind, 0), -2);
+        }
+        for (int kind = 1; kind <= 10; kind++) {
+            Check.due("kind " + kind, x.pack(kind, 0), 1);
+            x.drop(1);
+        }
+    }
+
+    private static void levels() {
+        Check.says("PACKING by a KIND 1 .. 10, with a level 0 .. 4 for KINDS 3, 4, 5 (0 for others): the STREAM, the "
+                + "least number that is free.");
+        PackingHouse x = Check.house(Check.octets("abcabcabc"));
         for (int kind = 1; kind <= 10; kind++) {
             boolean levels = kind >= 3 && kind <= 5;
-            Check.due("level -1", x.pack(kind, -1), -2);
-            Check.due("level 5", x.pack(kind, 5), -2);
-            Check.due("level 1 of " + kind, x.pack(kind, 1), levels ? 1 : -2);
-            x.drop(1);
-            Check.due("level 4 of " + kind, x.pack(kind, 4), levels ? 1 : -2);
-            x.drop(1);
-        }
-        Check.due("the TRAY stays", x.cut(9), 9);
-        for (int i = 1; i <= 12; i++) {
-            x.pack(6, 0);
-        }
-        Check.due("the kind comes first", x.pack(0, 0), -2);
-        Check.due("the level comes first", x.pack(3, 5), -2);
-        Check.due("no number", x.pack(3, 0), -4);
-    }
-
-    private static void runs() {
-        Check.packs("none", 1, 0, new byte[0], new byte[0]);
-        Check.packs("one", 1, 0, Check.octets("a"), Check.octets(0, "a"));
-        Check.packs("two alike", 1, 0, Check.octets("aa"), Check.octets(1, "aa"));
-        Check.packs("three alike", 1, 0, Check.octets("aaa"), Check.octets(254, "a"));
-        Check.packs("others behind", 1, 0, Check.octets("aaabc"), Check.octets(254, "a", 1, "bc"));
-        Check.packs("others before", 1, 0, Check.octets("aabbb"), Check.octets(1, "aa", 254, "b"));
-        Check.packs("128", 1, 0, Check.times(7, 128), Check.octets(129, 7));
-        Check.packs("129", 1, 0, Check.times(7, 129), Check.octets(129, 7, 0, 7));
-        Check.packs("130", 1, 0, Check.times(7, 130), Check.octets(129, 7, 1, 7, 7));
-        Check.packs("131", 1, 0, Check.times(7, 131), Check.octets(129, 7, 254, 7));
-        Check.packs("what is left goes with others", 1, 0, Check.octets(Check.times(7, 130), "abb"),
-                Check.octets(129, 7, 4, 7, 7, "abb"));
-        byte[] ramp = new byte[129];
-        for (int i = 0; i < 129; i++) {
-            ramp[i] = (byte) i;
-        }
-        Check.packs("129 others", 1, 0, ramp,
-                Check.octets(127, java.util.Arrays.copyOf(ramp, 128), 0, 128));
-    }
-
-    private static void words() {
-        Check.packs("none", 2, 0, new byte[0], BitRow.low().number(256, 9).number(257, 9).octets());
-        Check.packs("the entry that the code makes", 2, 0, Check.octets("aaaa"),
-                BitRow.low().number(256, 9).number('a', 9).number(258, 9).number('a', 9).number(257, 9).octets());
-        Check.packs("an entry", 2, 0, Check.octets("ababab"),
-                BitRow.low().number(256, 9).number('a', 9).number('b', 9).number(258, 9).number(258, 9)
-                        .number(257, 9).octets());
-        // 3838 codes of which no two that follow one another come again
-        byte[] text = pairs(3838);
-        BitRow row = BitRow.low().number(256, 9);
-        for (int k = 0; k < 3838; k++) {
-            row.number(text[k] & 255, k < 255 ? 9 : k < 767 ? 10 : k < 1791 ? 11 : 12);
-        }
-        Check.packs("a CLEAR where the text ends", 2, 0, text,
-                row.number(256, 12).number(257, 9).octets());
-        byte[] shorter = java.util.Arrays.copyOf(text, 3837);
-        row = BitRow.low().number(256, 9);
-        for (int k = 0; k < 3837; k++) {
-            row.number(text[k] & 255, k < 255 ? 9 : k < 767 ? 10 : k < 1791 ? 11 : 12);
-        }
-        Check.packs("no CLEAR behind 3837", 2, 0, shorter, row.number(257, 12).octets());
-    }
-
-    /** No pair of octets stands in it twice: by WORDS each octet is a code. */
-    private static byte[] pairs(int many) {
-        byte[] all = new byte[many];
-        int n = 0;
-        for (int step = 1; n < many; step += 2) {
-            int v = 0;
-            for (int i = 0; i < 256 && n < many; i++) {
-                all[n] = (byte) v;
-                n++;
-                v = v + step & 255;
+            for (int level : new int[] {-1, 5, Integer.MIN_VALUE, Integer.MAX_VALUE}) {
+                Check.due("level " + level + " of " + kind, x.pack(kind, level), -2);
+            }
+            for (int level = 1; level <= 4; level++) {
+                Check.due("level " + level + " of " + kind, x.pack(kind, level), levels ? 1 : -2);
+                x.drop(1);
             }
         }
-        return all;
     }
 
-    private static void blocks() {
-        Check.packs("STORED", 3, 0, Check.octets("abc"), Check.octets(1, 3, 0, 252, 255, "abc"));
-        Check.packs("STORED, none", 3, 0, new byte[0], Check.octets(1, 0, 0, 255, 255));
-        byte[] thousand = Check.times(5, 1000);
-        Check.packs("STORED, 1000", 3, 0, thousand, Check.octets(1, 232, 3, 23, 252, thousand));
-        Check.packs("STORED, 1001", 3, 0, Check.times(5, 1001),
-                Check.octets(0, 232, 3, 23, 252, thousand, 1, 1, 0, 254, 255, 5));
-        Check.packs("FIXED", 3, 1, Check.octets("abc"), Check.hex("4b4c4a0600"));
-        Check.packs("FIXED, none", 3, 1, new byte[0], Check.hex("0300"));
-        Check.packs("FIXED, 258 and 285", 3, 1, Check.times('a', 259),
-                BitRow.low().number(1, 1).number(1, 2).code("10010001").code("11000101").code("00000")
-                        .code("0000000").octets());
-        // one symbol each in the first code and the other
-        BitRow own = BitRow.low().number(1, 1).number(2, 2);
-        own.number(0, 5).number(0, 5).number(14, 4);
-        int[] steps = {0, 0, 1, 2, 0, 0, 0, 0, 0, 0, 0, 0, 0, 0, 0, 0, 0, 2};
-        for (int step : steps) {
-            own.number(step, 3);
+    private static void numbers() {
+        Check.says("-4 no number is free");
+        PackingHouse x = Check.house(Check.octets("abc"));
+        for (int i = 1; i <= 12; i++) {
+            Check.due("pack", x.pack(6, 0), i);
         }
-        own.code("0").number(127, 7).code("0").number(107, 7).code("11").code("10").code("0");
-        Check.packs("OWN, none", 3, 2, new byte[0], own.octets());
-        Check.packs("OWN, none, level 4", 3, 4, new byte[0], own.octets());
+        Check.due("no number", x.pack(6, 0), -4);
+        Check.due("the kind comes first", x.pack(0, 0), -2);
+        Check.due("the level comes first", x.pack(3, 5), -2);
+        x.drop(7);
+        Check.due("the one that is free", x.pack(6, 0), 7);
     }
 
-    private static void rimAndMember() {
-        int[] flags = {1, 94, 156, 218, 218};
-        for (int level = 0; level <= 4; level++) {
-            PackingHouse x = Check.house(Check.octets("abcabcabc"));
-            x.pack(3, level);
-            byte[] body = Check.stream(x, 1);
-            x.pack(4, level);
-            Check.due("RIM " + level, Check.stream(x, 2),
-                    Check.octets(120, flags[level], body, Check.hex("113d0373")));
-            x.pack(5, level);
-            Check.due("MEMBER " + level, Check.stream(x, 3), Check.octets(31, 139, 8, 0, 0, 0, 0, 0, 0, 255, body,
-                    Check.low(x.sum(1), 4), 9, 0, 0, 0));
+    private static void trayStays() {
+        Check.says("(The TRAY stays.)");
+        for (int kind = 1; kind <= 10; kind++) {
+            for (int level = 0; level <= (kind >= 3 && kind <= 5 ? 4 : 0); level++) {
+                PackingHouse x = new PackingHouse();
+                x.fill(2, 700, 3);
+                long before = x.sum(1);
+                x.pack(kind, level);
+                Check.due("how many", x.cut(700), 700);
+                Check.due("what", x.sum(1), before);
+            }
         }
+        Check.says("PACKING: the TRAY as a text becomes a STREAM.");
+        PackingHouse x = Check.house(Check.octets("abc"));
+        x.pack(1, 0);
+        x.cut(1);
+        x.pack(1, 0);
+        Check.due("three", Check.stream(x, 1), Check.octets(2, "abc"));
+        Check.due("one", Check.stream(x, 2), Check.octets(0, "a"));
     }
 
-    private static void fastAndFrame() {
-        Check.packs("FAST, none", 6, 0, new byte[0], Check.octets(0));
-        Check.packs("FAST, literals", 6, 0, Check.octets("abc"), Check.octets(48, "abc"));
-        Check.packs("FAST, 15 literals", 6, 0, Check.octets("abcdefghijklmno"),
-                Check.octets(240, 0, "abcdefghijklmno"));
-        // a match may not begin less than 12 before the end, nor end less than 5 before it
-        Check.packs("FAST, 12 alike", 6, 0, Check.times('a', 12), Check.octets(192, Check.times('a', 12)));
-        Check.packs("FAST, 13 alike", 6, 0, Check.times('a', 13), Check.octets(19, "a", 1, 0, 80, "aaaaa"));
-        Check.packs("FAST, a longer match", 6, 0, Check.times('a', 300),
-                Check.octets(31, "a", 1, 0, 255, 20, 80, "aaaaa"));
-        Check.packs("FAST, 255 more", 6, 0, Check.times('a', 280),
-                Check.octets(31, "a", 1, 0, 255, 0, 80, "aaaaa"));
-        byte[] others = pairs(270);
-        Check.packs("FAST, 255 more literals", 6, 0, others, Check.octets(240, 255, 0, others));
-        Check.packs("FRAME, none", 7, 0, new byte[0], Check.hex("04224d186440a700000000055dcc02"));
-        Check.packs("FRAME, as it is", 7, 0, Check.octets("abc"),
-                Check.octets(Check.hex("04224d186440a7"), 3, 0, 0, 128, "abc", 0, 0, 0, 0, Check.low(0x32D153FFL, 4)));
-        PackingHouse x = Check.house(Check.times('a', 13));
-        x.pack(7, 0);
-        Check.due("FRAME, FAST", Check.stream(x, 1), Check.octets(Check.hex("04224d186440a7"), 10, 0, 0, 0,
-                19, "a", 1, 0, 80, "aaaaa", 0, 0, 0, 0, Check.low(x.sum(3), 4)));
+    private static void bitRows() {
+        Check.says("A LOW ROW of bits fills octets from their lowest bit up, a HIGH ROW from their highest bit down; a "
+                + "number of n bits stands in a LOW ROW with its lowest bit first, in a HIGH ROW with its highest first.");
+        // WORDS are a LOW ROW: 256 and 257 in 9 bits each
+        Check.packs("a LOW ROW", 2, 0, Forms.NONE, Check.octets(0x00, 0x03, 0x02));
+        Check.packs("a HIGH ROW", 9, 0, Forms.NONE, Check.hex("425a683117724538509000000000"));
+        Check.says("LOW FIRST and HIGH FIRST tell in which order the octets of a number stand");
+        Check.packs("258 HIGH FIRST", 10, 0, Forms.pairs(258), naiveOdds(Forms.pairs(258)));
+        Check.due("it is 1, 2", Arrays.copyOf(naiveOdds(Forms.pairs(258)), 2), Check.octets(1, 2));
+        Check.packs("257 LOW FIRST", 8, 0, Forms.pairs(258),
+                Check.octets(130, 2, 244, 1, 1, Forms.pairs(258)));
+        Check.packs("772 LOW FIRST", 8, 0, Forms.pairs(773), Check.octets(133, 6, 244, 4, 3, Forms.pairs(773)));
+        Check.says("PREFIX CODES stand with their highest bit first in both.");
+        // 'a' is 10010001, the end 0000000, behind 1 and 1 0
+        Check.packs("a code in a LOW ROW", 3, 1, Check.octets("a"), Check.octets(0x4B, 0x04, 0x00));
+        Check.says("What is left of an octet behind the last bit is filled with 0");
+        // 18 bits: six are left
+        Check.packs("WORDS", 2, 0, Forms.NONE, Check.octets(0x00, 0x03, 0x02));
+        // 10 bits: six are left
+        Check.packs("FIXED", 3, 1, Forms.NONE, Check.octets(3, 0));
+        PackingHouse x = Check.house(Check.octets("a"));
+        x.pack(9, 0);
+        byte[] want = sortedOne();
+        Check.due("SORTED", Check.stream(x, 1), want);
+        Check.due("its last bits", want[want.length - 1] & 7, 0);
     }
 
-    private static void copies() {
-        Check.packs("COPIES, none", 8, 0, new byte[0], Check.octets(0));
-        Check.packs("COPIES, literals", 8, 0, Check.octets("abc"), Check.octets(3, 8, "abc"));
-        Check.packs("a copy by 1", 8, 0, Check.times('a', 12), Check.octets(12, 0, "a", 1 | 7 << 2, 1));
-        Check.packs("a copy by 2", 8, 0, Check.times('a', 13), Check.octets(13, 0, "a", 2 | 11 << 2, 1, 0));
-        Check.packs("64 at most", 8, 0, Check.times('a', 66), Check.octets(66, 0, "a", 2 | 63 << 2, 1, 0, 0, "a"));
-        byte[] text = pairs(300);
-        Check.packs("60 literals", 8, 0, java.util.Arrays.copyOf(text, 60),
-                Check.octets(60, 59 << 2, java.util.Arrays.copyOf(text, 60)));
-        Check.packs("61 literals", 8, 0, java.util.Arrays.copyOf(text, 61),
-                Check.octets(61, 60 << 2, 60, java.util.Arrays.copyOf(text, 61)));
-        Check.packs("256 literals", 8, 0, java.util.Arrays.copyOf(text, 256),
-                Check.octets(128, 2, 60 << 2, 255, java.util.Arrays.copyOf(text, 256)));
-        Check.packs("257 literals", 8, 0, java.util.Arrays.copyOf(text, 257),
-                Check.octets(129, 2, 61 << 2, 0, 1, java.util.Arrays.copyOf(text, 257)));
-        byte[] far = Check.octets("wxyz", java.util.Arrays.copyOfRange(pairs(4000), 300, 300 + 2044), "wxyz");
-        PackingHouse x = Check.house(far);
-        x.pack(8, 0);
-        byte[] got = Check.stream(x, 1);
-        Check.due("distance 2048 by 2", java.util.Arrays.copyOfRange(got, got.length - 3, got.length),
-                Check.octets(2 | 3 << 2, 0, 8));
-    }
-
-    private static void sortedAndOdds() {
-        Check.packs("SORTED, none", 9, 0, new byte[0], Check.hex("425a683117724538509000000000"));
-        // one octet: T is it; signs 97; symbols 0 (one front sign) and 2 (end) of three
-        BitRow row = BitRow.high().number(0x425A6831L, 32).number(0x314159265359L, 48);
-        int turned = (int) Check.house(Check.octets("a")).sum(2);
-        row.number(turned, 32).number(0, 1).number(0, 24).number(0x8000 >> 6, 16).number(0x8000 >> 1, 16);
+    /** One 'a': T is it; SIGNS 97; symbols 0 (one front sign) and 2 (end) of three. */
+    private static byte[] sortedOne() {
+        long turned = Forms.turned(Check.octets("a"));
+        BitRow row = Forms.sortedBegin(turned, 0).number(0x8000 >> 6, 16).number(0x8000 >> 1, 16);
         row.number(2, 3).number(1, 15).number(0, 1);
         for (int code = 0; code < 2; code++) {
             // counts 1, 1, 1: the first two are joined first, so that lengths are 2, 2, 1
             row.number(2, 5).code("0").code("0").code("110");
         }
-        row.code("10").code("0");
-        row.number(0x177245385090L, 48).number(turned, 32);
-        Check.packs("SORTED, one", 9, 0, Check.octets("a"), row.octets());
-        Check.packs("ODDS, none", 10, 0, new byte[0], Check.octets(0, 0, 0, 0, 0, 0));
-        // eight bits of 0, with odds of their own each: the RANGE is halved, LOW stays 0
-        Check.packs("ODDS, a 0", 10, 0, Check.octets(0), Check.octets(0, 1, 0, 0, 0, 0, 0));
+        return Forms.sortedEnd(row.code("10").code("0"), turned).octets();
     }
 
-    private static void tokens() {
-        PackingHouse x = Check.house(Check.octets("abcdeabcdefgabcdefg"));
-        Check.due("pack", x.pack(3, 1), 1);
-        int[][] want = {{1, 0, 0}, {1, 0, 1}, {1, 0, 2}, {1, 0, 3}, {1, 0, 4}, {5, 5, 5}, {1, 0, 10}, {1, 0, 11}, {7, 7, 12}};
-        Check.due("many", x.token(-1, 0), want.length);
-        Check.due("many, any what", x.token(-1, 99), want.length);
-        for (int i = 0; i < want.length; i++) {
-            for (int what = 0; what < 3; what++) {
-                Check.due("token " + i + ", " + what, x.token(i, what), want[i][what]);
+    private static void runs() {
+        Check.says("PACKING, from the left: three or more alike: up to 128 of them at once");
+        Check.packs("none", 1, 0, Forms.NONE, Forms.NONE);
+        Check.packs("two alike", 1, 0, Check.octets("aa"), Check.octets(1, "aa"));
+        Check.packs("three alike", 1, 0, Check.octets("aaa"), Check.octets(254, "a"));
+        Check.packs("127", 1, 0, Check.times(7, 127), Check.octets(130, 7));
+        Check.packs("128", 1, 0, Check.times(7, 128), Check.octets(129, 7));
+        Check.packs("129", 1, 0, Check.times(7, 129), Check.octets(129, 7, 0, 7));
+        Check.packs("130", 1, 0, Check.times(7, 130), Check.octets(129, 7, 1, 7, 7));
+        Check.packs("131", 1, 0, Check.times(7, 131), Check.octets(129, 7, 254, 7));
+        Check.packs("256", 1, 0, Check.times(7, 256), Check.octets(129, 7, 129, 7));
+        Check.says("others together, up to 128, till three alike come.");
+        Check.packs("one", 1, 0, Check.octets("a"), Check.octets(0, "a"));
+        Check.packs("others behind", 1, 0, Check.octets("aaabc"), Check.octets(254, "a", 1, "bc"));
+        Check.packs("others before", 1, 0, Check.octets("aabbb"), Check.octets(1, "aa", 254, "b"));
+        Check.packs("two alike are others", 1, 0, Check.octets("abbcc"), Check.octets(4, "abbcc"));
+        Check.packs("what is left goes with others", 1, 0, Check.octets(Check.times(7, 130), "abb"),
+                Check.octets(129, 7, 4, 7, 7, "abb"));
+        Check.packs("127 others", 1, 0, Forms.ramp(0, 127), Check.octets(126, Forms.ramp(0, 127)));
+        Check.packs("128 others", 1, 0, Forms.ramp(0, 128), Check.octets(127, Forms.ramp(0, 128)));
+        Check.packs("129 others", 1, 0, Forms.ramp(0, 129), Check.octets(127, Forms.ramp(0, 128), 0, 128));
+        Check.packs("127 others and three", 1, 0, Check.octets(Forms.ramp(0, 127), "zzz"),
+                Check.octets(126, Forms.ramp(0, 127), 254, "z"));
+        Check.packs("128 others and three", 1, 0, Check.octets(Forms.ramp(0, 128), "zzz"),
+                Check.octets(127, Forms.ramp(0, 128), 254, "z"));
+        Check.packs("three at the 127th of them", 1, 0, Check.octets(Forms.ramp(0, 126), "zz", "zz"),
+                Check.octets(125, Forms.ramp(0, 126), 253, "z"));
+        Check.packs("two at the end of 128", 1, 0, Check.octets(Forms.ramp(0, 127), "zz"),
+                Check.octets(127, Forms.ramp(0, 127), "z", 0, "z"));
+    }
+
+    private static BitRow wordRow() {
+        return BitRow.low().number(256, 9);
+    }
+
+    private static int width(int number) {
+        return Math.max(9, 32 - Integer.numberOfLeadingZeros(Math.min(4095, 257 + number)));
+    }
+
+    /** WORDS by the words of the document: all entries are looked at each time. */
+    private static byte[] naiveWords(byte[] octets) {
+        String text = new String(octets, java.nio.charset.StandardCharsets.ISO_8859_1);
+        BitRow row = wordRow();
+        Map<String, Integer> entries = new HashMap<>();
+        int number = 0;
+        int p = 0;
+        String before = "";
+        while (p < text.length()) {
+            if (number > 0) {
+                entries.put(before + text.charAt(p), 257 + number);
+            }
+            String best = text.substring(p, p + 1);
+            for (String entry : entries.keySet()) {
+                best = entry.length() > best.length() && text.startsWith(entry, p) ? entry : best;
+            }
+            row.number(entries.getOrDefault(best, (int) best.charAt(0)), width(number));
+            p += best.length();
+            before = best;
+            number++;
+            if (number == 3838) {
+                row.number(256, width(number));
+                entries.clear();
+                number = 0;
             }
         }
-        Check.due("none", x.token(9, 0), -1);
-        Check.due("none, nor what", x.token(9, 3), -1);
-        Check.due("none", x.token(-2, 0), -1);
-        Check.due("no such what", x.token(0, 3), -2);
-        Check.due("no such what", x.token(0, -1), -2);
-        x.pack(3, 5);
-        Check.due("they stay when refused", x.token(-1, 0), 9);
-        x.open(3);
-        Check.due("they stay in open()", x.token(-1, 0), 9);
-        int s = Check.streamOf(x, Check.times('a', 50));
-        Check.due("none after RUNS", x.token(-1, 0), 0);
-        x.name('n', 1);
-        x.entry(s, 0, 0);
-        x.load(s);
-        x.pack(6, 0);
-        int many = x.token(-1, 0);
-        x.write(13, 2);
-        Check.due("they stay in write()", x.token(-1, 0), many);
-        x.pack(3, 0);
-        Check.due("none after level 0", x.token(-1, 0), 0);
-        x.pack(8, 0);
-        Check.due("8 has some", x.token(-1, 0), 2);
-        x.pack(9, 0);
-        Check.due("9 has none", x.token(-1, 0), 0);
-        x.pack(7, 0);
-        Check.due("7 has some", x.token(-1, 0), 7);
+        return row.number(257, width(number)).octets();
     }
 
-    private static void parses() {
-        // the longest one, of these the least distance
-        expectTokens("least distance", 1, "abcXabcYabcd", 1, 1, 1, 1, 3, 1, 3, 1);
-        Check.due("it is 4", tokenWhat("abcXabcYabcd", 1, 6, 1), 4);
-        // lazy: a literal where the next place has a longer one
-        expectTokens("greedy", 1, "abcbcdefabcdef", 1, 1, 1, 1, 1, 1, 1, 1, 3, 3);
-        expectTokens("lazy", 2, "abcbcdefabcdef", 1, 1, 1, 1, 1, 1, 1, 1, 1, 5);
-        // fewest bits: three literals of 8 bits are dearer than a match of 7 + 5 + 0 bits
-        expectTokens("fewest", 3, "aaaaaaa", 1, 6);
-        expectTokens("fewest, a literal where one is possible", 3, "abcabc", 1, 1, 1, 3);
-        // no match goes beyond a block of 2000
-        byte[] text = Check.times('q', 4000);
-        PackingHouse x = Check.house(text);
-        x.pack(3, 4);
-        int place = 0;
-        for (int i = 0; i < x.token(-1, 0); i++) {
-            Check.holds("within a block", place / 2000 == (place + x.token(i, 0) - 1) / 2000);
-            Check.due("place", x.token(i, 2), place);
-            place += x.token(i, 0);
-        }
-        Check.due("all of it", place, 4000);
-        // cut to 2 it is none
-        x = Check.house(Check.octets("vwxyz", Check.times('q', 1992), "x", "vwxyz"));
-        x.pack(3, 4);
-        int many = x.token(-1, 0);
-        Check.due("two literals before the end of the block", x.token(many - 3, 0), 1);
-        Check.due("and the rest behind it", x.token(many - 1, 0), 3);
-        Check.due("with its distance", x.token(many - 1, 1), 1998);
-    }
-
-    private static void expectTokens(String what, int level, String text, int... sizes) {
-        PackingHouse x = Check.house(Check.octets(text));
-        x.pack(3, level);
-        StringBuilder got = new StringBuilder();
-        StringBuilder want = new StringBuilder();
-        for (int i = 0; i < x.token(-1, 0); i++) {
-            got.append(x.token(i, 0)).append(' ');
-        }
-        for (int size : sizes) {
-            want.append(size).append(' ');
-        }
-        Check.due(what, got.toString(), want.toString());
-    }
-
-    private static int tokenWhat(String text, int level, int i, int what) {
-        PackingHouse x = Check.house(Check.octets(text));
-        x.pack(3, level);
-        return x.token(i, what);
-    }
-
-    private static void bits() {
-        PackingHouse x = Check.house(Check.octets("abc"));
-        x.pack(3, 1);
-        Check.due("3 and 3 * 8 and 7", x.bits(), 34);
-        x.pack(4, 1);
-        Check.due("of RIM's BLOCKS alone", x.bits(), 34);
-        x.pack(5, 0);
-        Check.due("STORED", x.bits(), 64);
-        x.pack(11, 0);
-        Check.due("it stays when refused", x.bits(), 64);
-        x.pack(6, 0);
-        Check.due("0 after others", x.bits(), 0);
-        x.cut(0);
-        x.pack(3, 2);
-        Check.due("OWN, none", x.bits(), 92);
-    }
-
-    private static void foreignOpeners() throws Exception {
+    private static void words() {
+        Check.says("PACKING: CLEAR (9 bits)");
+        Check.packs("none", 2, 0, Forms.NONE, wordRow().number(257, 9).octets());
+        Check.says("the longest entry, or octet, that the text goes on with, each time (also the entry that this code "
+                + "itself makes)");
+        Check.packs("the entry that the code makes", 2, 0, Check.octets("aaaa"),
+                wordRow().number('a', 9).number(258, 9).number('a', 9).number(257, 9).octets());
+        Check.packs("two of them", 2, 0, Check.octets("aaaaaa"),
+                wordRow().number('a', 9).number(258, 9).number(259, 9).number(257, 9).octets());
+        Check.packs("an entry", 2, 0, Check.octets("ababab"),
+                wordRow().number('a', 9).number('b', 9).number(258, 9).number(258, 9).number(257, 9).octets());
+        Check.packs("the longest one", 2, 0, Check.octets("abababa"),
+                wordRow().number('a', 9).number('b', 9).number(258, 9).number(260, 9).number(257, 9).octets());
         for (byte[] text : Check.someTexts()) {
-            for (int level = 0; level <= 4; level++) {
-                PackingHouse x = Check.house(text);
-                x.pack(3, level);
-                Check.due("raw, level " + level, inflated(Check.stream(x, 1), true, text.length), text);
-                x.pack(4, level);
-                Check.due("zlib, level " + level, inflated(Check.stream(x, 2), false, text.length), text);
-                x.pack(5, level);
-                byte[] member = Check.stream(x, 3);
-                Check.due("gzip, level " + level,
-                        new GZIPInputStream(new ByteArrayInputStream(member)).readAllBytes(), text);
+            Check.packs("by all entries", 2, 0, text, naiveWords(text));
+        }
+        byte[] text = Forms.filled(Forms.filled(Forms.NONE, 0, 4500, 8), 2, 1500, 9);
+        Check.packs("with a CLEAR", 2, 0, text, naiveWords(text));
+    }
+
+    private static void wordWidths() {
+        Check.says("Code number k, and what comes in its place, has the least width from 9 to 12 in which 257 + k can be "
+                + "written.");
+        for (int many : new int[] {254, 255, 256, 766, 767, 768, 1790, 1791, 1792}) {
+            byte[] text = Forms.pairs(many);
+            BitRow row = wordRow();
+            for (int k = 0; k < many; k++) {
+                row.number(text[k] & 255, k < 255 ? 9 : k < 767 ? 10 : k < 1791 ? 11 : 12);
             }
+            row.number(257, many < 255 ? 9 : many < 767 ? 10 : many < 1791 ? 11 : 12);
+            Check.packs(many + " codes and END", 2, 0, text, row.octets());
         }
     }
 
-    private static byte[] inflated(byte[] packed, boolean raw, int size) throws Exception {
-        Inflater inflater = new Inflater(raw);
-        inflater.setInput(packed);
-        byte[] all = new byte[size + 10];
-        int n = inflater.inflate(all);
-        Check.holds("the end", inflater.finished() && inflater.getRemaining() == 0);
-        inflater.end();
-        return java.util.Arrays.copyOf(all, n);
+    private static void wordsThatEnd() {
+        Check.says("behind 3838 codes a CLEAR (also when the text ends there); END.");
+        for (int many : new int[] {3837, 3838, 3839}) {
+            byte[] text = Forms.pairs(many);
+            BitRow row = wordRow();
+            for (int k = 0; k < Math.min(many, 3838); k++) {
+                row.number(text[k] & 255, k < 255 ? 9 : k < 767 ? 10 : k < 1791 ? 11 : 12);
+            }
+            if (many == 3837) {
+                row.number(257, 12);
+            } else if (many == 3838) {
+                row.number(256, 12).number(257, 9);
+            } else {
+                row.number(256, 12).number(text[3838] & 255, 9).number(257, 9);
+            }
+            Check.packs(many + " codes", 2, 0, text, row.octets());
+        }
+    }
+
+    private static void fast() {
+        Check.says("an empty text is the octet 0.");
+        Check.packs("none", 6, 0, Forms.NONE, Check.octets(0));
+        Check.says("SEQUENCES: an octet, its high four bits how many literals, its low ones a match's length less 4; 15 in the high "
+                + "ones: octets follow, to be added, up to one below 255; the literals");
+        byte[] others = Forms.pairs(600);
+        Check.packs("3 literals", 6, 0, Check.octets("abc"), Check.octets(48, "abc"));
+        Check.packs("14 literals", 6, 0, Arrays.copyOf(others, 14), Check.octets(224, Arrays.copyOf(others, 14)));
+        Check.packs("15 literals", 6, 0, Arrays.copyOf(others, 15), Check.octets(240, 0, Arrays.copyOf(others, 15)));
+        Check.packs("269 literals", 6, 0, Arrays.copyOf(others, 269),
+                Check.octets(240, 254, Arrays.copyOf(others, 269)));
+        Check.packs("270 literals", 6, 0, Arrays.copyOf(others, 270),
+                Check.octets(240, 255, 0, Arrays.copyOf(others, 270)));
+        Check.packs("524 literals", 6, 0, Arrays.copyOf(others, 524),
+                Check.octets(240, 255, 254, Arrays.copyOf(others, 524)));
+        Check.packs("525 literals", 6, 0, Arrays.copyOf(others, 525),
+                Check.octets(240, 255, 255, 0, Arrays.copyOf(others, 525)));
+        Check.says("15 in the low ones: octets follow likewise.");
+        byte[] tail = Check.octets(80, "aaaaa");
+        Check.packs("a match of 18", 6, 0, Check.times('a', 24), Check.octets(30, "a", 1, 0, tail));
+        Check.packs("a match of 19", 6, 0, Check.times('a', 25), Check.octets(31, "a", 1, 0, 0, tail));
+        Check.packs("a match of 273", 6, 0, Check.times('a', 279), Check.octets(31, "a", 1, 0, 254, tail));
+        Check.packs("a match of 274", 6, 0, Check.times('a', 280), Check.octets(31, "a", 1, 0, 255, 0, tail));
+        Check.packs("a match of 5994", 6, 0, Check.times('a', 6000),
+                Check.octets(31, "a", 1, 0, Check.times(255, 23), 110, tail));
+        Check.says("2 octets LOW FIRST, the distance");
+        byte[] far = Check.octets("wxyz", Arrays.copyOfRange(Forms.pairs(4000), 300, 300 + 296), "wxyz", "01234567");
+        PackingHouse x = Check.house(far);
+        x.pack(6, 0);
+        byte[] got = Check.stream(x, 1);
+        Check.due("distance 300", Arrays.copyOfRange(got, got.length - 11, got.length),
+                Check.octets(300 - 256, 1, 128, "01234567"));
+    }
+
+    private static void fastEdges() {
+        Check.says("PACKING: GREEDY (4 and more, reach 65535), where a match begins at 12 or more before the end and ends "
+                + "at 5 or more before it (the LONGEST one is cut there; below 4 it is none)");
+        Check.packs("12 alike", 6, 0, Check.times('a', 12), Check.octets(192, Check.times('a', 12)));
+        Check.packs("13 alike", 6, 0, Check.times('a', 13), Check.octets(19, "a", 1, 0, 80, "aaaaa"));
+        // a match of 4 at 12 before the end, and at 11 before it
+        Check.packs("at 12 before the end", 6, 0, Check.octets("abcdabcd", "01234567"),
+                Check.octets(64, "abcd", 4, 0, 128, "01234567"));
+        Check.packs("at 11 before the end", 6, 0, Check.octets("abcdabcd", "0123456"),
+                Check.octets(240, 0, "abcdabcd", "0123456"));
+        // a match of three is none
+        Check.packs("three are none", 6, 0, Check.octets("abc-abc", "0123456789"),
+                Check.octets(240, 2, "abc-abc", "0123456789"));
+        // it ends where five are left, though more are alike
+        Check.packs("cut at 5 before the end", 6, 0, Check.octets("abcdefghijkl", "abcdefghijkl"),
+                Check.octets(195, "abcdefghijkl", 12, 0, 80, "hijkl"));
+        Check.packs("as it is at 6 before the end", 6, 0, Check.octets("abcdefghijkl", "abcdefg", "123456"),
+                Check.octets(195, "abcdefghijkl", 12, 0, 96, "123456"));
+        Check.packs("as it is at 5 before the end", 6, 0, Check.octets("abcdefghijkl", "abcdefgh", "12345"),
+                Check.octets(196, "abcdefghijkl", 12, 0, 80, "12345"));
+        Check.packs("cut to 5 before the end", 6, 0, Check.octets("abcdefghijkl", "abcdefghi", "1234"),
+                Check.octets(196, "abcdefghijkl", 12, 0, 80, "i", "1234"));
+    }
+
+    private static void frame() {
+        Check.says("PACKING: FLAGS 100, the octet behind 64; a text that is not empty in one block, as it is if FAST is "
+                + "not shorter; the sum of all.");
+        byte[] head = Check.hex("04224d186440a7");
+        Check.packs("none", 7, 0, Forms.NONE, Check.octets(head, 0, 0, 0, 0, Check.hex("055dcc02")));
+        Check.packs("as it is", 7, 0, Check.octets("abc"),
+                Check.octets(head, 3, 0, 0, 128, "abc", 0, 0, 0, 0, Check.low(0x32D153FFL, 4)));
+        byte[] same = Check.octets("abcdabcd", "01234567");
+        Check.packs("FAST has as many", 7, 0, same,
+                Check.octets(head, 16, 0, 0, 128, same, 0, 0, 0, 0, Check.low(Forms.mixed(same), 4)));
+        byte[] less = Check.octets("abcdeabcde", "01234567");
+        Check.packs("FAST has one less", 7, 0, less, Check.octets(head, 17, 0, 0, 0, 81, "abcde", 5, 0, 128, "01234567",
+                0, 0, 0, 0, Check.low(Forms.mixed(less), 4)));
+        byte[] many = Check.times('a', 13);
+        Check.packs("FAST is shorter", 7, 0, many, Check.octets(head, 10, 0, 0, 0, 19, "a", 1, 0, 80, "aaaaa",
+                0, 0, 0, 0, Check.low(Forms.mixed(many), 4)));
+    }
+
+    private static void copies() {
+        Check.says("how many octets come out, in SEVENS: octets of 7 bits, the lowest first, with 128 in all but the "
+                + "last, at most 5.");
+        Check.packs("none", 8, 0, Forms.NONE, Check.octets(0));
+        byte[] text = Forms.pairs(300);
+        Check.packs("127", 8, 0, Arrays.copyOf(text, 127), Check.octets(127, 240, 126, Arrays.copyOf(text, 127)));
+        Check.packs("128", 8, 0, Arrays.copyOf(text, 128), Check.octets(128, 1, 240, 127, Arrays.copyOf(text, 128)));
+        Check.says("literals that follow one another in one, with the fewest octets.");
+        Check.packs("one", 8, 0, Check.octets("a"), Check.octets(1, 0, "a"));
+        Check.packs("60 literals", 8, 0, Arrays.copyOf(text, 60), Check.octets(60, 236, Arrays.copyOf(text, 60)));
+        Check.packs("61 literals", 8, 0, Arrays.copyOf(text, 61), Check.octets(61, 240, 60, Arrays.copyOf(text, 61)));
+        Check.packs("256 literals", 8, 0, Arrays.copyOf(text, 256),
+                Check.octets(128, 2, 240, 255, Arrays.copyOf(text, 256)));
+        Check.packs("257 literals", 8, 0, Arrays.copyOf(text, 257),
+                Check.octets(129, 2, 244, 0, 1, Arrays.copyOf(text, 257)));
+        byte[] all = Forms.pairs(6000);
+        Check.packs("6000 literals", 8, 0, all, Check.octets(0xF0, 0x2E, 244, 0x6F, 0x17, all));
+    }
+
+    private static void copyEdges() {
+        Check.says("PACKING: GREEDY (4 .. 64, reach 65535)");
+        Check.packs("three are none", 8, 0, Check.octets("abcXabc"), Check.octets(7, 24, "abcXabc"));
+        Check.packs("four are one", 8, 0, Check.octets("abcdabcd"), Check.octets(8, 12, "abcd", 1, 4));
+        Check.packs("64", 8, 0, Check.times('a', 65), Check.octets(65, 0, "a", 254, 1, 0));
+        Check.packs("64 at most", 8, 0, Check.times('a', 66), Check.octets(66, 0, "a", 254, 1, 0, 0, "a"));
+        Check.packs("64 and 4", 8, 0, Check.times('a', 69), Check.octets(69, 0, "a", 254, 1, 0, 1, 1));
+        Check.says("copies by 1 if length is below 12 and distance below 2048, else 2");
+        Check.packs("length 11", 8, 0, Check.times('a', 12), Check.octets(12, 0, "a", 29, 1));
+        Check.packs("length 12", 8, 0, Check.times('a', 13), Check.octets(13, 0, "a", 46, 1, 0));
+        for (int distance = 2047; distance <= 2048; distance++) {
+            byte[] between = Arrays.copyOfRange(Forms.pairs(4000), 300, 300 + distance - 4);
+            PackingHouse x = Check.house(Check.octets("wxyz", between, "wxyz"));
+            x.pack(8, 0);
+            byte[] got = Check.stream(x, 1);
+            byte[] want = distance == 2047 ? Check.octets(7 << 5 | 1, 255) : Check.octets(14, 0, 8);
+            Check.due("distance " + distance, Arrays.copyOfRange(got, got.length - want.length, got.length), want);
+            Check.due("how many", got.length, 2 + 3 + 4 + between.length + want.length);
+        }
+    }
+
+    /** ODDS by the words of the document: what went out and LOW are one number of any length. */
+    private static byte[] naiveOdds(byte[] text) {
+        int[][] odds = new int[256][256];
+        for (int[] some : odds) {
+            Arrays.fill(some, 1024);
+        }
+        BigInteger low = BigInteger.ZERO;
+        long range = 0xFFFFFFFFL;
+        int out = 0;
+        int before = 0;
+        for (byte b : text) {
+            int node = 1;
+            for (int k = 7; k >= 0; k--) {
+                int bit = b >> k & 1;
+                long bound = range / 2048 * odds[before][node];
+                if (bit == 0) {
+                    range = bound;
+                    odds[before][node] += (2048 - odds[before][node]) / 32;
+                } else {
+                    low = low.add(BigInteger.valueOf(bound));
+                    range -= bound;
+                    odds[before][node] -= odds[before][node] / 32;
+                }
+                for (; range < 1 << 24; range *= 256) {
+                    low = low.shiftLeft(8);
+                    out++;
+                }
+                node = node * 2 + bit;
+            }
+            before = b & 255;
+        }
+        byte[] number = low.toByteArray();
+        byte[] all = new byte[out + 4];
+        for (int i = 0; i < Math.min(number.length, all.length); i++) {
+            all[all.length - 1 - i] = number[number.length - 1 - i];
+        }
+        return Check.octets(text.length >> 8, text.length & 255, all);
+    }
+
+    private static void odds() {
+        Check.says("KIND 10, ODDS: how many octets, 2 HIGH FIRST; then bits by a RANGE of 32 bits (all 1 at first) and a LOW "
+                + "(0): each octet by 8 bits, the highest first, each with ODDS of its own, by the octet before (0 at first) "
+                + "and the bits of this one that came before: a number of 11 bits, 1024 at first.");
+        Check.packs("none", 10, 0, Forms.NONE, Check.octets(0, 0, 0, 0, 0, 0));
+        // eight bits of 0, with odds of their own each: the RANGE is halved, LOW stays 0
+        Check.packs("a 0", 10, 0, Check.octets(0), Check.octets(0, 1, 0, 0, 0, 0, 0));
+        for (int n : new int[] {255, 256, 257}) {
+            byte[] text = Forms.filled(Forms.NONE, 0, n, n);
+            Check.packs("of " + n, 10, 0, text, naiveOdds(text));
+        }
+        Check.says("A bit: bound = (RANGE / 2048) * odds. 0: RANGE is bound, odds are more by (2048 - odds) / 32; 1: LOW "
+                + "is more by bound, RANGE less, odds less by odds / 32 (all rounded down). While RANGE is below 2^24: the "
+                + "highest octet of LOW goes out, LOW is the rest times 256, RANGE times 256.");
+        for (int v = 0; v < 256; v++) {
+            Check.packs("one octet " + v, 10, 0, Check.octets(v), naiveOdds(Check.octets(v)));
+        }
+        // odds that come to their least and to their greatest
+        Check.packs("0s", 10, 0, Check.times(0, 4000), naiveOdds(Check.times(0, 4000)));
+        Check.packs("255s", 10, 0, Check.times(255, 4000), naiveOdds(Check.times(255, 4000)));
+        byte[] turns = Forms.filled(Check.octets(Check.times(0, 2000), Check.times(255, 1500)), 0, 400, 5);
+        Check.packs("what was never there", 10, 0, turns, naiveOdds(turns));
+        Check.says("At the end the four octets of LOW, the highest first.");
+        for (byte[] text : Check.someTexts()) {
+            Check.packs("texts", 10, 0, text, naiveOdds(text));
+        }
+    }
+
+    private static void oddsCarry() {
+        Check.says("LOW going beyond 32 bits adds 1 to what went out before (as one number).");
+        int through = 0;
+        for (int seed = 0; seed < 200; seed++) {
+            byte[] text = Forms.filled(Forms.NONE, seed % 4, 60, seed);
+            byte[] want = naiveOdds(text);
+            PackingHouse x = new PackingHouse();
+            x.fill(seed % 4, 60, seed);
+            x.pack(10, 0);
+            Check.due("fill " + seed, Check.stream(x, 1), want);
+            for (int i = 3; i < want.length - 4; i++) {
+                through += want[i] == 0 ? 1 : 0;
+            }
+        }
+        Check.holds("1 went through a 255", through > 0);
     }
 
     private static void everyKindComesBack() {
+        Check.says("A house for making octets fewer, and having them again");
         for (byte[] text : Check.someTexts()) {
             for (int kind = 1; kind <= 10; kind++) {
                 for (int level = 0; level <= (kind >= 3 && kind <= 5 ? 4 : 0); level++) {
