@@ -148,14 +148,13 @@ public final class BenchTest {
 
     private static void noFigures() {
         Check.says("112 no figures, or a time above 2^31 - 1");
-        for (String wrong : new String[] {"", " 1", "x", "1x", "1 1", "-1", "+1", "\0", "1\0", "0x1"}) {
+        for (String wrong : new String[] {"", " 1", "x", "1x", "1 1", "-1", "+1", "\0", "1\0", "0x1", "/", "1/", ":", "1:"}) {
             Forms.readFaults("time " + wrong, 12, bench(Forms.benchRow("a/", wrong, "0", "0")), 112, 8, 0);
             Forms.readFaults("mode " + wrong, 12, bench(Forms.benchRow("a/", "0", wrong, "0")), 112, 8, 0);
             Forms.readFaults("size " + wrong, 12, bench(Forms.benchRow("a/", "0", "0", wrong)), 112, 8, 0);
         }
         Forms.readFaults("mode 8", 12, bench(Forms.benchRow("a/", "0", "8", "0")), 112, 8, 0);
         Forms.readFaults("mode 78", 12, bench(Forms.benchRow("a/", "0", "78", "0")), 112, 8, 0);
-        Forms.readFaults("time :", 12, bench(Forms.benchRow("a/", ":", "0", "0")), 112, 8, 0);
         PackingHouse x = Forms.reads("2^31 - 1", 12, bench(Forms.benchRow("a/", "2147483647", "0", "0")), 1);
         Check.due("time", x.told(0, 2), Integer.MAX_VALUE);
         Forms.readFaults("2^31", 12, bench(Forms.benchRow("a/", "2147483648", "0", "0")), 112, 8, 0);

@@ -9,6 +9,7 @@ public final class ParseTest {
         lazy();
         fewest();
         spans();
+        everyDistance();
         tokens();
         tokenEdges();
         lasting();
@@ -121,12 +122,34 @@ public final class ParseTest {
         // the longest match is 4 at 9, but 3 has a distance of 4: its bits are fewer by 1, the literal's 8 are more
         parses("the length before the distance", 3, "abcdXabcYabcd", "1 1 1 1 1 3@5 1 4@9");
         parses("none", 3, "", "");
+        literalBits();
         for (int seed = 0; seed < 30; seed++) {
             byte[] text = Forms.filled(Forms.NONE, seed % 3 + 1, 40 + 9 * seed, seed);
             PackingHouse x = Check.house(text);
             x.pack(3, 3);
             Check.due("all ways, " + seed, parse(x), cheapest(text));
             Check.due("their bits, " + seed, x.bits(), 3 + 7 + costs(text)[0]);
+        }
+    }
+
+    /**
+     * Four octets from 4200 before are a match of 7 + 5 + 11 bits; the last three of them, from near by, are one of
+     * 7 + 5 + 3 bits (17 .. 32 before), or of one bit less or more: with a literal of 8 or 9 bits that is as many, or not.
+     */
+    private static void literalBits() {
+        int[][] want = {{143, 16, 1}, {143, 17, 1}, {143, 32, 1}, {143, 33, 4}, {144, 16, 1}, {144, 17, 4}, {144, 13, 1},
+            {255, 16, 1}, {255, 17, 4}, {0, 32, 1}, {0, 33, 4}};
+        for (int[] some : want) {
+            byte[] others = Arrays.copyOfRange(Forms.pairs(6000), 1024, 1024 + 4200 - 4 - some[1] + 1);
+            byte[] few = Arrays.copyOfRange(Forms.pairs(6000), 512, 512 + some[1] - 4);
+            byte[] four = Check.octets(some[0], 7, 77, 200);
+            byte[] three = Arrays.copyOfRange(four, 1, 4);
+            PackingHouse x = Check.house(Check.octets(four, others, three, few, four));
+            x.pack(3, 3);
+            int many = x.token(-1, 0);
+            int last = x.token(many - 1, 0);
+            Check.due("octet " + some[0] + ", " + some[1] + " before", last == 4 ? 4 : x.token(many - 2, 0), some[2]);
+            Check.due("the distance of the last", x.token(many - 1, 1), some[2] == 4 ? 4200 : some[1]);
         }
     }
 
@@ -192,6 +215,9 @@ public final class ParseTest {
         parses("2003 alike", 3, 4, Check.times('q', 2003), "1 " + "258@1 ".repeat(7) + "193@1 3@1");
         parses("4000 alike", 3, 4, Check.times('q', 4000), "1 " + "258@1 ".repeat(7) + "193@1 " + "258@1 ".repeat(7)
                 + "194@1");
+        parses("no block by level 1", 3, 1, Check.times('q', 2003), "1 " + "258@1 ".repeat(7) + "196@1");
+        parses("no block by level 2", 3, 2, Check.times('q', 2003), "1 " + "258@1 ".repeat(7) + "196@1");
+        parses("no block by COPIES", 8, 0, Check.times('q', 2003), "1 " + "64@1 ".repeat(31) + "18@1");
         // 'vwxyz' with its end 3, 2, 1 octets before the end of a block
         for (int left = 1; left <= 5; left++) {
             byte[] text = Check.octets("vwxyz", Check.times('q', 2000 - 5 - left), "vwxyz", "-");
@@ -203,6 +229,56 @@ public final class ParseTest {
             Check.due(left + " before the end of a block", got.substring(got.length() - want.length()), want);
             Check.holds("a token ends there", got.charAt(got.length() - want.length() - 1) == ' ');
         }
+    }
+
+    /** The LONGEST match, looked for at each distance: its length and distance. */
+    private static int[] longest(byte[] text, int p, int least, int most) {
+        int[] best = {0, 0};
+        for (int d = 1; d <= p; d++) {
+            int n = 0;
+            while (p + n < text.length && n < most && text[p + n] == text[p + n - d]) {
+                n++;
+            }
+            best = n >= least && n > best[0] ? new int[] {n, d} : best;
+        }
+        return best;
+    }
+
+    private static String naive(byte[] text, int kind, int level) {
+        int least = kind == 3 ? 3 : 4;
+        int most = kind == 3 ? 258 : kind == 8 ? 64 : 6000;
+        StringBuilder all = new StringBuilder();
+        for (int p = 0; p < text.length; ) {
+            int[] match = longest(text, p, least, most);
+            int n = match[0];
+            if (level == 4) {
+                n = Math.min(n, 2000 - p % 2000);
+            } else if (kind == 6) {
+                n = p > text.length - 12 ? 0 : Math.min(n, text.length - 5 - p);
+            } else if (level == 2 && n > 0 && longest(text, p + 1, least, most)[0] > n) {
+                n = 0;
+            }
+            n = n < least ? 1 : n;
+            all.append(p > 0 ? " " : "").append(n > 1 ? n + "@" + match[1] : "1");
+            p += n;
+        }
+        return all.toString();
+    }
+
+    private static void everyDistance() {
+        Check.says("MATCHES. The LONGEST match at a place of a text");
+        for (int seed = 0; seed < 40; seed++) {
+            byte[] text = Forms.filled(Forms.filled(Forms.NONE, seed % 4, 100 + seed, seed), (seed + 1) % 4, 200, seed + 99);
+            for (int kind : new int[] {3, 6, 8}) {
+                for (int level = kind == 3 ? 1 : 0; level <= (kind == 3 ? 4 : 0); level++) {
+                    if (level != 3) {
+                        parses("fill " + seed + " by " + kind + ", " + level, kind, level, text, naive(text, kind, level));
+                    }
+                }
+            }
+        }
+        byte[] text = Forms.filled(Forms.filled(Forms.NONE, 2, 3000, 5), 1, 1500, 6);
+        parses("over blocks", 3, 4, text, naive(text, 3, 4));
     }
 
     private static void tokens() {

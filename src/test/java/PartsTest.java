@@ -36,6 +36,12 @@ public final class PartsTest {
         }
         Check.due("there is no SET", x.part(0, 0), -1);
         Check.due("1 and 0", x.protect(1, 0), 7);
+        Check.due("nothing to repair", x.repair(), 0);
+        Check.due("all of it", Check.stream(x, x.whole()), Check.octets("abcdefg"));
+        Check.due("it is lost", x.lose(0), 1);
+        Check.due("no check for it", x.repair(), -3);
+        Check.due("it is GONE", x.whole(), -3);
+        x.protect(1, 0);
         Check.due("refused", x.protect(0, 0), -2);
         Check.due("the SET stays", x.part(0, 6), 'g');
         Check.due("no check", x.part(1, 0), -1);

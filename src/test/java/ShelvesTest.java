@@ -48,6 +48,10 @@ public final class ShelvesTest {
         Check.due("a 0 last", x.name(0x6200L, 2), -2);
         Check.due("a 0 between", x.name(0x610062L, 3), -2);
         Check.due("a 0 first of eight", x.name(0x0062636465666768L, 8), -2);
+        Check.due("a 1", x.name(1, 1), 1);
+        Check.due("1s", x.name(0x0101010101010101L, 8), 9);
+        Check.due("a 128", x.name(128, 1), 10);
+        x.name(0, 0);
         Check.due("none came", x.name('a', 1), 1);
         for (int i = 0; i < 11; i++) {
             x.name(0x6162636465666768L, 8);

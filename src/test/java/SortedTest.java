@@ -14,6 +14,7 @@ public final class SortedTest {
         marks();
         signs();
         choices();
+        sixCodes();
         lengths();
         symbols();
         longRows();
@@ -119,9 +120,11 @@ public final class SortedTest {
             }
         }
         Check.says("lengths told with the fewest bits.");
-        for (int n : new int[] {1, 30, 500}) {
-            SortedBlock block = block(Forms.filled(Forms.NONE, 0, n, n));
+        int different = 0;
+        for (int n : new int[] {1, 3, 30, 150, 500, 1000}) {
+            SortedBlock block = block(n == 3 ? Check.octets("aaab") : Forms.filled(Forms.NONE, n % 4, n, n));
             int[] lengths = block.lengths.get(0);
+            different += lengths[0] == lengths[1] ? 0 : 1;
             int bits = 5;
             for (int s = 0; s < lengths.length; s++) {
                 bits += 1 + (s == 0 ? 0 : 2 * Math.abs(lengths[s] - lengths[s - 1]));
@@ -129,6 +132,7 @@ public final class SortedTest {
             Check.due("of the first", block.lengthBits.get(0), bits);
             Check.due("of the second", block.lengthBits.get(1), bits);
         }
+        Check.holds("the first two differ in some", different > 0);
     }
 
     private static void packChoices() {
@@ -229,6 +233,12 @@ public final class SortedTest {
         }
         row = oneSign().number(2, 3).number(0, 15);
         Check.faults("no choices", 9, row.octets(), 85, row.place(), 0);
+        long all = Forms.turned(Check.octets(255));
+        for (int choices : new int[] {1, 2, 32767}) {
+            row = oneSign().number(2, 3).number(choices, 15).code("0".repeat(choices));
+            row.number(2, 5).code("0" + "0" + "110").number(2, 5).code("0" + "0" + "110").code("10").code("0");
+            Check.opens(choices + " choices", 9, Forms.sortedEnd(row, all).octets(), Check.octets(255));
+        }
         // a block of six codes of one sign: the sixth is chosen
         row = oneSign().number(6, 3).number(1, 15).code("111110");
         for (int i = 0; i < 6; i++) {
@@ -280,6 +290,44 @@ public final class SortedTest {
         String[] third = Forms.codes(lengths[2]);
         row.code(third[2]).code(third[3]);
         told("the codes that are chosen", row, 90);
+    }
+
+    /** A block that was packed, written anew with six codes that are chosen in many ways. */
+    private static void sixCodes() {
+        Check.says("3 bits: how many codes, 2 .. 6; 15 bits: how many CHOICES; each tells a place in a row of the codes (at first "
+                + "in their order), of which it goes to the front then, as so many 1s, and a 0");
+        byte[] text = Forms.filled(Forms.NONE, 0, 1900, 4);
+        for (int i = 0; i < text.length; i++) {
+            // never four alike: so that SIGNS are 97 and 98 alone
+            boolean three = i >= 3 && text[i - 1] == text[i - 2] && text[i - 2] == text[i - 3];
+            text[i] = (byte) (three ? 195 - text[i - 1] : 'a' + (text[i] & 1));
+        }
+        SortedBlock block = block(text);
+        int[][] lengths = {{1, 2, 3, 3}, {2, 1, 3, 3}, {3, 1, 2, 3}, {3, 3, 1, 2}, {2, 3, 1, 3}, {3, 2, 3, 1}};
+        int many = (block.symbols.size() + 49) / 50;
+        BitRow row = Forms.sortedBegin(block.turned, block.origin).number(0x8000 >> 6, 16).number(0x6000, 16).number(6, 3)
+                .number(many, 15);
+        List<Integer> order = new java.util.ArrayList<>(List.of(0, 1, 2, 3, 4, 5));
+        int[] chosen = new int[many];
+        for (int i = 0; i < many; i++) {
+            int place = i * 7 % 11 % 6;
+            row.code("1".repeat(place) + "0");
+            chosen[i] = order.remove(place);
+            order.add(0, chosen[i]);
+        }
+        for (int[] some : lengths) {
+            int told = some[0];
+            row.number(told, 5);
+            for (int n : some) {
+                row.code(n > told ? "10".repeat(n - told) : "11".repeat(told - n)).code("0");
+                told = n;
+            }
+        }
+        for (int i = 0; i < block.symbols.size(); i++) {
+            row.code(Forms.codes(lengths[chosen[i / 50]])[block.symbols.get(i)]);
+        }
+        Check.holds("many choices", many > 10);
+        Check.opens("all of them", 9, Forms.sortedEnd(row, block.turned).octets(), text);
     }
 
     /** A RULE that is told behind the last bit of a row, with more behind it. */

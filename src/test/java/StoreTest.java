@@ -78,12 +78,11 @@ public final class StoreTest {
             Check.due("number", x.save(), i);
             Check.due("forget", x.forget(i), 1);
         }
-        Check.due("a refused one takes none", x.store(2), 0);
         for (int i = 101; i <= 108; i++) {
             x.save();
         }
-        x.save();
-        x.save();
+        Check.due("a refused one", x.save(), -4);
+        Check.due("takes no number", x.save(), -4);
         x.forget(108);
         Check.due("109", x.save(), 109);
         Check.due("108 is no more", x.restore(108), -1);
@@ -130,24 +129,27 @@ public final class StoreTest {
         }
     }
 
-    /** Octets with which h has bits 24 .. 29 all 1 at some length, and before and behind it not. */
-    private static byte[] marked(int length, int all) {
+    /** So many octets, of which the first ones up to some length, and from 31 on only these, have bits 24 .. 29 all 1. */
+    private static byte[] marked(int length, int many) {
         for (int seed = 0; ; seed++) {
-            byte[] text = Forms.filled(Forms.NONE, 0, all, seed);
-            int h = 0;
-            boolean fits = true;
-            for (int i = 0; i < all && fits; i++) {
-                h = h * 31 + (text[i] & 255) + 1;
-                fits = i < 30 || (h >>> 24 & 63) == 63 == (i + 1 == length);
-                h = i + 1 == length && length >= 32 ? 0 : h;
-                if (i + 1 == length && length >= 32) {
-                    break;
-                }
-            }
-            if (fits) {
+            byte[] text = Forms.filled(Forms.NONE, 0, many, seed);
+            if (marks(text).equals("[" + length + "]")) {
                 return text;
             }
         }
+    }
+
+    /** The lengths from 31 on at which the bits are all 1, if no piece ended before. */
+    private static String marks(byte[] text) {
+        List<Integer> all = new ArrayList<>();
+        int h = 0;
+        for (int i = 0; i < text.length; i++) {
+            h = h * 31 + (text[i] & 255) + 1;
+            if (i >= 30 && (h >>> 24 & 63) == 63) {
+                all.add(i + 1);
+            }
+        }
+        return all.toString();
     }
 
     private static void pieceEnds() {
@@ -159,7 +161,6 @@ public final class StoreTest {
         kept("32, and the bits", marked(32, 32), 32);
         kept("32, the bits, and more", marked(32, 40), 32, 8);
         kept("33, the bits, and more", marked(33, 40), 33, 7);
-        // 0s have an h whose bits are never all 1 in 200
         byte[] plain = Forms.filled(Forms.NONE, 0, 200, seedOf(0, 200));
         kept("199", java.util.Arrays.copyOf(plain, 199), 199);
         kept("200", plain, 200);

@@ -176,6 +176,9 @@ public final class TapeTest {
             Forms.readFaults("the sum is another one", 11, tape(GOOD, row), 100, 512, 1);
         }
         byte[] row = GOOD.clone();
+        Forms.copy(row, 148, "0\0\0\0\0\0\0\0");
+        Forms.readFaults("a sum of 0", 11, tape(row), 100, 0, 0);
+        row = GOOD.clone();
         row[300]++;
         Forms.readFaults("the row is another one", 11, tape(row), 100, 0, 0);
         row = GOOD.clone();
@@ -187,7 +190,7 @@ public final class TapeTest {
 
     private static void noFigures() {
         Check.says("101 mode, size, time are no figures, or the time is above 2^31 - 1");
-        for (String wrong : new String[] {"", "8", "9", "        ", "\0" + "1", "x", "1x", "1-", "-1", "+1", " \0"}) {
+        for (String wrong : new String[] {"", "8", "9", "        ", "\0" + "1", "x", "1x", "1-", "-1", "+1", " \0", "/", "1/", "18"}) {
             String none = "wrong: " + wrong;
             Forms.readFaults(none, 11, tape(Forms.tapeRow("a", wrong, "0", "0")), 101, 0, 0);
             String wide = wrong.isBlank() && !wrong.contains("\0") ? "            ".substring(0, wrong.isEmpty() ? 0 : 12) : wrong;
