@@ -174,7 +174,11 @@ public final class BoxTest {
         faults("one behind", with(LAST + 16, 35), 121, LAST, 0);
         faults("one octet less", with(LAST + 12, 46), 121, LAST, 0);
         faults("one octet more", with(LAST + 12, 48), 121, LAST, 0);
-        faults("2^31 more", with(LAST + 15, 128), 121, LAST, 0);
+        for (int i = 13; i < 20; i++) {
+            if (i != 16) {
+                faults("more by octet " + i, with(LAST + i, 128), 121, LAST, 0);
+            }
+        }
         faults("both 2^31 more", Forms.with(with(LAST + 15, 128), LAST + 19, 128), 121, LAST, 0);
         byte[] far = Check.octets(Arrays.copyOf(GOOD, LAST), Forms.last(1, 0xFFFFFFFFL, LAST + 1));
         faults("together 2^32 more", far, 121, LAST, 0);
@@ -188,6 +192,7 @@ public final class BoxTest {
             faults("its number at " + i, with(ROW + i, 7), 122, ROW, 0);
         }
         faults("its NAME goes beyond", with(ROW + 28, 2), 122, ROW, 0);
+        faults("its NAME of 256", Forms.with(with(ROW + 28, 0), ROW + 29, 1), 122, ROW, 0);
         faults("its NAME of 65535", Forms.with(with(ROW + 28, 255), ROW + 29, 255), 122, ROW, 0);
         // two rows are told, but there is one
         faults("the row is to begin in the last 22", Forms.with(with(LAST + 8, 2), LAST + 10, 2), 122, LAST, 1);
@@ -308,8 +313,12 @@ public final class BoxTest {
         far[ROW + 45] = 127;
         faults("2^31 - 1", far, 124, Integer.MAX_VALUE, 0);
         faults("2^31", with(ROW + 45, 128), 124, Integer.MAX_VALUE, 0);
-        byte[] wide = Forms.facts(8, 5, Forms.round(TEXT), 0xFFFFFFFFL, 3, 1);
-        faults("2^32 - 1 stand behind it", Forms.boxOf(wide, wide, TEXT), 124, 0, 0);
+        for (long standing : new long[] {4, 3 + (1L << 8), 3 + (1L << 16), 3 + (1L << 24), 3 + (1L << 31), 0xFFFFFFFFL}) {
+            for (int method : new int[] {0, 8}) {
+                byte[] wide = Forms.facts(method, 5, Forms.round(TEXT), standing, 3, 1);
+                faults(standing + " stand behind it", Forms.boxOf(wide, wide, TEXT), 124, 0, 0);
+            }
+        }
     }
 
     private static void twoSizes() {
@@ -330,6 +339,11 @@ public final class BoxTest {
         byte[] facts = Forms.facts(8, 5, Forms.round(TEXT), 5, 3, 1);
         PackingHouse x = Forms.reads("BLOCKS", 13, Forms.boxOf(facts, facts, packed), 1);
         Check.due("its text", Check.stream(x, x.extract(0)), TEXT);
+        byte[] two = Check.octets(Forms.head(facts, "n"), packed, Forms.head(facts, "n"), packed);
+        byte[] rows = Check.octets(Forms.row(facts, "n", 1, 0), Forms.row(facts, "n", 1, 36));
+        x = Forms.reads("two of them", 13, Check.octets(two, rows, Forms.last(2, 94, 72)), 2);
+        Check.due("the text of the first", Check.stream(x, x.extract(0)), TEXT);
+        Check.due("the text of the second", Check.stream(x, x.extract(1)), TEXT);
         byte[] left = Forms.facts(8, 5, Forms.round(TEXT), 6, 3, 1);
         faults("it goes on", Forms.boxOf(left, left, Check.octets(packed, 0)), 14, 36, 0);
         byte[] lack = Forms.facts(8, 5, Forms.round(TEXT), 4, 3, 1);
@@ -359,6 +373,11 @@ public final class BoxTest {
             byte[] facts = Forms.facts(8, 5, Forms.round(TEXT), 5, size, 1);
             faults("size " + size, Forms.boxOf(facts, facts, packed), 126, 0, 0);
         }
+        // another size, with the ROUND of so many octets
+        byte[] longer = Forms.facts(8, 5, Forms.round(Check.octets(TEXT, 0)), 5, 4, 1);
+        faults("one more, a 0", Forms.boxOf(longer, longer, packed), 126, 0, 0);
+        byte[] shorter = Forms.facts(8, 5, Forms.round(Check.octets("ab")), 5, 2, 1);
+        faults("one less", Forms.boxOf(shorter, shorter, packed), 126, 0, 0);
         byte[] round = Forms.facts(8, 5, Forms.round(TEXT) ^ 1, 5, 3, 1);
         faults("ROUND of BLOCKS", Forms.boxOf(round, round, packed), 126, 0, 0);
         byte[] other = Forms.facts(0, 5, Forms.round(TEXT) ^ 1L << 31, 3, 3, 1);

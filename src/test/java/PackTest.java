@@ -110,15 +110,18 @@ public final class PackTest {
         Check.packs("FIXED", 3, 1, Forms.NONE, Check.octets(3, 0));
         PackingHouse x = Check.house(Check.octets("a"));
         x.pack(9, 0);
-        byte[] want = sortedOne();
+        byte[] want = sortedOne('a');
         Check.due("SORTED", Check.stream(x, 1), want);
+        for (int v : new int[] {0, 15, 16, 240, 255}) {
+            Check.packs("SORTED of " + v, 9, 0, Check.octets(v), sortedOne(v));
+        }
         Check.due("its last bits", want[want.length - 1] & 7, 0);
     }
 
-    /** One 'a': T is it; SIGNS 97; symbols 0 (one front sign) and 2 (end) of three. */
-    private static byte[] sortedOne() {
-        long turned = Forms.turned(Check.octets("a"));
-        BitRow row = Forms.sortedBegin(turned, 0).number(0x8000 >> 6, 16).number(0x8000 >> 1, 16);
+    /** One octet: T is it; it is the only sign; symbols 0 (one front sign) and 2 (end) of three. */
+    private static byte[] sortedOne(int octet) {
+        long turned = Forms.turned(Check.octets(octet));
+        BitRow row = Forms.sortedBegin(turned, 0).number(0x8000 >> octet / 16, 16).number(0x8000 >> octet % 16, 16);
         row.number(2, 3).number(1, 15).number(0, 1);
         for (int code = 0; code < 2; code++) {
             // counts 1, 1, 1: the first two are joined first, so that lengths are 2, 2, 1

@@ -97,6 +97,42 @@ public final class SortedTest {
         SortedBlock one = block(Check.octets("a"));
         Check.due("one", one.row, Check.octets("a"));
         Check.due("its ORIGIN", one.origin, 0);
+        // every text of two octets up to some length, and what comes again and again
+        for (int n = 2; n <= 9; n++) {
+            for (int bits = 0; bits < 1 << n; bits++) {
+                byte[] text = new byte[n];
+                for (int i = 0; i < n; i++) {
+                    text[i] = (byte) ('a' + (bits >> i & 1));
+                }
+                rotations(text);
+            }
+        }
+        for (int seed = 0; seed < 60; seed++) {
+            byte[] piece = Forms.filled(Forms.NONE, 1, 1 + seed % 9, seed);
+            byte[] text = Forms.NONE;
+            for (int i = 0; i <= seed % 7; i++) {
+                text = Check.octets(text, piece);
+            }
+            rotations(text);
+        }
+    }
+
+    private static void rotations(byte[] text) {
+        SortedBlock block = block(text);
+        String twice = new String(Check.octets(block.runs, block.runs), java.nio.charset.StandardCharsets.ISO_8859_1);
+        int n = block.runs.length;
+        List<Integer> order = new java.util.ArrayList<>();
+        for (int i = 0; i < n; i++) {
+            order.add(i);
+        }
+        // the sort of a list keeps those that are the same in their order
+        order.sort(java.util.Comparator.comparing((Integer i) -> twice.substring(i, i + n)));
+        StringBuilder row = new StringBuilder();
+        for (int i : order) {
+            row.append(twice.charAt(i + n - 1));
+        }
+        Check.due("T of " + twice.substring(n), block.row, Check.octets(row.toString()));
+        Check.due("ORIGIN of " + twice.substring(n), block.origin, order.indexOf(0));
     }
 
     private static void packCodes() {

@@ -328,6 +328,7 @@ public final class StoreTest {
         Check.due("none comes first", x.restore(2), -1);
         x.drop(5);
         Check.due("the one that is free", x.restore(1), 5);
+        Check.due("nothing of what was there before", Check.stream(x, 5), Check.octets("abc"));
         x.forget(1);
         Check.due("forgotten", x.restore(1), -1);
     }
@@ -390,6 +391,8 @@ public final class StoreTest {
         y.feed('q', 1);
         y.save();
         Check.due("none", y.shared(1, 3), 0);
+        Check.due("nor the other way", y.shared(3, 1), 0);
+        Check.due("one", y.shared(3, 3), 1);
     }
 
     private static void store() {

@@ -79,7 +79,9 @@ public final class TapeTest {
         Forms.reads("one row and a good one", 11, Check.octets(new byte[512], GOOD), 0);
         Forms.reads("behind a row", 11, Check.octets(GOOD, new byte[512]), 1);
         Forms.readFaults("511 of them", 11, new byte[511], 1, 511, 0);
-        Forms.readFaults("a row with a 1", 11, Forms.with(new byte[512], 511, 1), 101, 0, 0);
+        for (int at : new int[] {0, 256, 511}) {
+            Forms.readFaults("a row with a 1 at " + at, 11, Forms.with(new byte[512], at, 1), 101, 0, 0);
+        }
     }
 
     private static PackingHouse figures(String mode, String size, String time) {
