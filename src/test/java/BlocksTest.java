@@ -1,6 +1,7 @@
 import java.io.ByteArrayInputStream;
 import java.util.Arrays;
 import java.util.List;
+import java.util.zip.Deflater;
 import java.util.zip.GZIPInputStream;
 import java.util.zip.Inflater;
 
@@ -16,6 +17,7 @@ public final class BlocksTest {
         oneCount();
         sameCounts();
         limits();
+        steepCounts();
         toldLengths();
         zeros();
         lengthsAgain();
@@ -323,6 +325,92 @@ public final class BlocksTest {
             OwnHead head = head(Forms.filled(Forms.NONE, 0, n, n));
             Check.due("of " + n, told(head.third, 19), told(Forms.lengthsByCounts(head.stepCounts, 7), 19));
         }
+    }
+
+    /** Counts that grow so fast that a code of 15 or 16 bits is made of them (and of 256, once). */
+    private static int[] steep(int a, int b) {
+        int[] all = new int[32];
+        Arrays.fill(all, 199);
+        int[] first = {1, 1, 3, 4, 7, 11, 18, 29, 47, 76, 123, 199, 322, a, b, b};
+        System.arraycopy(first, 0, all, 0, first.length);
+        return all;
+    }
+
+    /** Octets nearly as often as is told; no three that follow one another come again, so there is no match. */
+    private static byte[] steepText(int[] counts) {
+        int k = counts.length;
+        int[] left = counts.clone();
+        boolean[] used = new boolean[k * k * k];
+        int[] free = new int[k * k];
+        Arrays.fill(free, k);
+        byte[] text = new byte[6000];
+        text[0] = 1;
+        text[1] = 0;
+        left[0]--;
+        left[1]--;
+        for (int n = 2; ; n++) {
+            int pair = text[n - 2] * k + text[n - 1];
+            int best = -1;
+            double most = 0;
+            for (int c = 0; c < k; c++) {
+                // what is left of it counts, and in how many ways the text can go on behind it
+                double worth = left[c] * Math.sqrt(free[text[n - 1] * k + c]);
+                if (!used[pair * k + c] && worth > most) {
+                    most = worth;
+                    best = c;
+                }
+            }
+            if (best < 0) {
+                return Arrays.copyOf(text, n);
+            }
+            used[pair * k + best] = true;
+            free[pair]--;
+            left[best]--;
+            text[n] = (byte) best;
+        }
+    }
+
+    private static void steepCounts() {
+        Check.says("OWN: codes by counts of what the block has (256 once), limit 15");
+        Check.holds("just at the limit it stays", isFree(steepText(steep(523, 525)), 15));
+        Check.holds("above it there is another one", !isFree(steepText(steep(524, 527)), 16));
+    }
+
+    /** Whether the first code of a text of literals is the one without a limit, whose greatest length is told. */
+    private static boolean isFree(byte[] text, int greatest) {
+        int[] counts = new int[286];
+        for (byte v : text) {
+            counts[v]++;
+        }
+        counts[256] = 1;
+        int[] free = Forms.lengthsByCounts(counts, 99);
+        Check.due("without a limit it would be", Arrays.stream(free).max().getAsInt(), greatest);
+        // so many octets come by fewer than 512 calls when they are packed
+        Deflater deflater = new Deflater(9, true);
+        deflater.setInput(text);
+        deflater.finish();
+        byte[] packed = new byte[6000];
+        PackingHouse x = Check.house(Arrays.copyOf(packed, deflater.deflate(packed)));
+        deflater.end();
+        Check.due("open", x.open(3), 1);
+        Check.due("load", x.load(1), text.length);
+        Check.due("pack", x.pack(3, 2), 2);
+        Check.due("no match", x.token(-1, 0), text.length);
+        byte[] begin = new byte[70];
+        for (int i = 0; i < begin.length; i++) {
+            begin[i] = (byte) x.at(2, i);
+        }
+        OwnHead head = new OwnHead(begin, 0);
+        int[] want = Forms.lengthsByCounts(counts, 15);
+        Check.due("with it", told(head.first, 286), told(want, 286));
+        int bits = head.size;
+        for (int s = 0; s < 286; s++) {
+            bits += counts[s] * want[s];
+        }
+        Check.due("its bits", x.bits(), bits);
+        x.load(2);
+        Check.due("it comes back", x.differ(1, x.open(3)), -1);
+        return Arrays.equals(free, want);
     }
 
     private static void toldLengths() {
