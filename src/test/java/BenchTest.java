@@ -32,8 +32,9 @@ public final class BenchTest {
     }
 
     private static void write() {
-        Check.says("KIND 12, BENCH: \"!<arch>\" and 10; for each ENTRY 60 octets: NAME with 47 behind (16), time in tens "
-                + "(12), \"0\" (6), \"0\" (6), mode in eights (8), size in tens (10), all filled with 32; 96, 10");
+        Check.says("KIND 12, BENCH: \"!<arch>\" and 10; for each ENTRY 60 octets: NAME with 47 behind (16), time "
+                + "in tens (12), \"0\" (6), \"0\" (6), mode in eights (8), size in tens (10), all filled with 32; "
+                + "96, 10");
         PackingHouse x = new PackingHouse();
         Check.due("no ENTRIES", Check.stream(x, x.write(12, 0)), MARK);
         Check.due("the least", written("a", Forms.NONE, 0, 0), bench(Forms.benchRow("a/", "0", "0", "0")));
@@ -103,8 +104,8 @@ public final class BenchTest {
     }
 
     private static void notLookedAt() {
-        Check.says("the two \"0\" are not looked at, nor is what the 10 behind an odd size is (it may lack at the end). Ends "
-                + "with the octets.");
+        Check.says("the two \"0\" are not looked at, nor is what the 10 behind an odd size is (it may lack at the "
+                + "end). Ends with the octets.");
         byte[] row = GOOD.clone();
         Forms.copy(row, 28, "whatever it ");
         Forms.reads("the two 0s", 12, bench(row), 1);

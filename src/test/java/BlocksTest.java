@@ -31,8 +31,8 @@ public final class BlocksTest {
     }
 
     private static void stored() {
-        Check.says("PACKING by LEVELS: 0: STORED blocks of 1000 octets, the last one with fewer (none of 0 octets, but "
-                + "for an empty text).");
+        Check.says("PACKING by LEVELS: 0: STORED blocks of 1000 octets, the last one with fewer (none of 0 "
+                + "octets, but for an empty text).");
         Check.packs("none", 3, 0, Forms.NONE, Check.octets(1, 0, 0, 255, 255));
         Check.packs("3", 3, 0, Check.octets("abc"), Check.octets(1, 3, 0, 252, 255, "abc"));
         byte[] most = Check.times(5, 1000);
@@ -74,8 +74,8 @@ public final class BlocksTest {
     }
 
     private static void lengthSymbols() {
-        Check.says("257 .. 264 are 3 .. 10; then each four have 1, 2, 3, 4, 5 more bits, and go on from where those before "
-                + "ended: 265 is 11 and 12, .., 284 is 227 .. 257");
+        Check.says("257 .. 264 are 3 .. 10; then each four have 1, 2, 3, 4, 5 more bits, and go on from where "
+                + "those before ended: 265 is 11 and 12, .., 284 is 227 .. 257");
         int length = 3;
         for (int s = 257; s <= 284; s++) {
             int more = s < 265 ? 0 : (s - 261) / 4;
@@ -101,8 +101,8 @@ public final class BlocksTest {
     }
 
     private static void distanceSymbols() {
-        Check.says("DISTANCES 0 .. 3 are 1 .. 4; then each two have 1, 2, .., 13 more bits and go on likewise: 4 is 5 and "
-                + "6, .., 29 is 24577 .. 32768.");
+        Check.says("DISTANCES 0 .. 3 are 1 .. 4; then each two have 1, 2, .., 13 more bits and go on likewise: 4 "
+                + "is 5 and 6, .., 29 is 24577 .. 32768.");
         int distance = 1;
         for (int d = 0; distance + 3 <= 6000; d++) {
             int more = d < 4 ? 0 : (d - 2) / 2;
@@ -264,9 +264,10 @@ public final class BlocksTest {
     }
 
     private static void sameCounts() {
-        Check.says("Else, again and again, the two with the least counts are joined, till one is left (of the same count "
-                + "leaves come before what was joined, leaves in their order, what was joined in the order of joining); the "
-                + "count of what is joined is the sum. A length is how many joinings a symbol is in.");
+        Check.says("Else, again and again, the two with the least counts are joined, till one is left (of the "
+                + "same count leaves come before what was joined, leaves in their order, what was joined in the "
+                + "order of joining); the count of what is joined is the sum. A length is how many joinings a "
+                + "symbol is in.");
         // three of one: the first two are joined, then with the third
         Check.due("1 1 1", Arrays.toString(lengths("ab")), "[2, 2, 1]");
         Check.due("1 1 1 1", Arrays.toString(lengths("abc")), "[2, 2, 2, 2]");
@@ -288,9 +289,9 @@ public final class BlocksTest {
             int[] all = Forms.lengthsByCounts(counts, 15);
             Check.due(text, Arrays.toString(lengths(text)), Arrays.toString(Arrays.stream(all).filter(n -> n > 0).toArray()));
         }
-        Check.says("PREFIX CODES hang on the lengths of their symbols (0: it has none): codes of one length follow one "
-                + "another in the order of symbols, from the least length on; the first of all is 0, the first of a length "
-                + "is twice what follows the last one of the length that is less by 1.");
+        Check.says("PREFIX CODES hang on the lengths of their symbols (0: it has none): codes of one length "
+                + "follow one another in the order of symbols, from the least length on; the first of all is 0, "
+                + "the first of a length is twice what follows the last one of the length that is less by 1.");
         // lengths 1, 3, 3, 2 of a, b, c, 256: codes 0, 110, 111, 10
         PackingHouse x = Check.house(Check.octets("aabac"));
         x.pack(3, 2);
@@ -435,8 +436,8 @@ public final class BlocksTest {
     }
 
     private static void zeros() {
-        Check.says("lengths told, from the left, over both codes in one: 0s that follow one another, at most 138 at once: "
-                + "18 for 11 or more, 17 for 3 or more (10 at most at once if they are fewer than 11)");
+        Check.says("lengths told, from the left, over both codes in one: 0s that follow one another, at most 138 "
+                + "at once: 18 for 11 or more, 17 for 3 or more (10 at most at once if they are fewer than 11)");
         // octets 0 and some v: v - 1 lengths of 0 are between them; lengths of 0, v, 256 are 2, 2, 1
         steps("1", Check.octets(0, 2), "2", "0", "2", "18+127", "18+104", "1", "0");
         steps("2", Check.octets(0, 3), "2", "0", "0", "2", "18+127", "18+103", "1", "0");
@@ -454,8 +455,8 @@ public final class BlocksTest {
     }
 
     private static void lengthsAgain() {
-        Check.says("another length that is like the one before, as often as it follows, at most 6 at once: 16 for 3 or "
-                + "more; else one by itself");
+        Check.says("another length that is like the one before, as often as it follows, at most 6 at once: 16 for "
+                + "3 or more; else one by itself");
         // 7 octets and the end have lengths of 3, 15 of 4, 31 of 5
         steps("2 more", Check.octets(Forms.ramp(0, 3), Forms.ramp(20, 4)),
                 "3", "3", "3", "18+6", "3", "16+0", "18+127", "18+83", "3", "0");
@@ -501,9 +502,9 @@ public final class BlocksTest {
     }
 
     private static void rim() {
-        Check.says("KIND 4, RIM: octet 120 (its low four bits 8, its high ones 7), an octet whose two highest bits are the "
-                + "level (3 for 4), with bit 5 as 0, the least with which both HIGH FIRST are a multiple of 31; BLOCKS; "
-                + "ADLER of the text, HIGH FIRST.");
+        Check.says("KIND 4, RIM: octet 120 (its low four bits 8, its high ones 7), an octet whose two highest "
+                + "bits are the level (3 for 4), with bit 5 as 0, the least with which both HIGH FIRST are a "
+                + "multiple of 31; BLOCKS; ADLER of the text, HIGH FIRST.");
         int[] flags = {1, 94, 156, 218, 218};
         for (int level = 0; level <= 4; level++) {
             PackingHouse x = Check.house(Check.octets("abcabcabc"));
@@ -538,8 +539,8 @@ public final class BlocksTest {
     }
 
     private static void bits() {
-        Check.says("How many bits BLOCKS had, up to the last one that tells something, in the last pack() that was not "
-                + "refused, if that was by a KIND 3, 4, 5; else 0.");
+        Check.says("How many bits BLOCKS had, up to the last one that tells something, in the last pack() that "
+                + "was not refused, if that was by a KIND 3, 4, 5; else 0.");
         PackingHouse x = Check.house(Check.octets("abc"));
         x.pack(3, 1);
         Check.due("3 and 3 * 8 and 7", x.bits(), 34);

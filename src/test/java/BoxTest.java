@@ -33,9 +33,9 @@ public final class BoxTest {
     }
 
     private static void write() {
-        Check.says("for each ENTRY a head: 0x04034b50 (4 octets), 20 (2), 0 (2), method 0 or 8 (2), time (4), ROUND (4), "
-                + "size as it stands (4), size (4), how long the NAME is (2), 0 (2), NAME; then the text as it is, or "
-                + "(method 8) in BLOCKS");
+        Check.says("for each ENTRY a head: 0x04034b50 (4 octets), 20 (2), 0 (2), method 0 or 8 (2), time (4), "
+                + "ROUND (4), size as it stands (4), size (4), how long the NAME is (2), 0 (2), NAME; then the "
+                + "text as it is, or (method 8) in BLOCKS");
         PackingHouse x = new PackingHouse();
         Forms.put(x, "n", TEXT, 420, 5);
         Check.due("one", Check.stream(x, x.write(13, 0)), GOOD);
@@ -46,10 +46,10 @@ public final class BoxTest {
         byte[] row = Forms.row(none, "n".repeat(100), 511, 0);
         Check.due("an empty text", Check.stream(x, x.write(13, 1)),
                 Check.octets(head, row, Forms.last(1, row.length, head.length)));
-        Check.says("then for each a row: 0x02014b50 (4), 20, 20, 0, method (2 each), time, ROUND, the two sizes (4 each), "
-                + "how long the NAME is (2), 0, 0, 0, 0 (2 each), mode * 65536 (4), where its head is (4), NAME; then the "
-                + "last 22: 0x06054b50 (4), 0 (2), 0 (2), how many (2), how many (2), how many octets the rows have (4), "
-                + "where they begin (4), 0 (2).");
+        Check.says("then for each a row: 0x02014b50 (4), 20, 20, 0, method (2 each), time, ROUND, the two sizes "
+                + "(4 each), how long the NAME is (2), 0, 0, 0, 0 (2 each), mode * 65536 (4), where its head is "
+                + "(4), NAME; then the last 22: 0x06054b50 (4), 0 (2), 0 (2), how many (2), how many (2), how "
+                + "many octets the rows have (4), where they begin (4), 0 (2).");
         x = new PackingHouse();
         Check.due("no ENTRIES", Check.stream(x, x.write(13, 0)), Forms.last(0, 0, 0));
         byte[] text = Check.times('x', 300);
@@ -128,9 +128,9 @@ public final class BoxTest {
     }
 
     private static void last() {
-        Check.says("READING: RULES: 120 there are not 22 octets, or the last 22 have not that number, or one of their 0s is "
-                + "none, or the two how many differ (PLACE: where the last 22 begin, 0 if there are not so many; likewise for "
-                + "the next two)");
+        Check.says("READING: RULES: 120 there are not 22 octets, or the last 22 have not that number, or one of "
+                + "their 0s is none, or the two how many differ (PLACE: where the last 22 begin, 0 if there are "
+                + "not so many; likewise for the next two)");
         Forms.reads("good", 13, GOOD, 1);
         Forms.reads("22", 13, Forms.last(0, 0, 0), 0);
         faults("none", Forms.NONE, 120, 0, 0);
@@ -169,7 +169,8 @@ public final class BoxTest {
     }
 
     private static void together() {
-        Check.says("121 where the rows begin and how many octets they have are not together where the last 22 begin.");
+        Check.says("121 where the rows begin and how many octets they have are not together where the last 22 "
+                + "begin.");
         faults("one before", with(LAST + 16, 33), 121, LAST, 0);
         faults("one behind", with(LAST + 16, 35), 121, LAST, 0);
         faults("one octet less", with(LAST + 12, 46), 121, LAST, 0);
@@ -207,8 +208,8 @@ public final class BoxTest {
     }
 
     private static void rowFacts() {
-        Check.says("123 a method that is neither, the third or one of the four 0s is none, the lower half of the 4 octets "
-                + "with the mode is not 0 or the higher one above 511, or the time is above 2^31 - 1");
+        Check.says("123 a method that is neither, the third or one of the four 0s is none, the lower half of the "
+                + "4 octets with the mode is not 0 or the higher one above 511, or the time is above 2^31 - 1");
         for (int method : new int[] {1, 7, 9, 255}) {
             faults("method " + method, with(ROW + 10, method), 123, ROW, 0);
         }
@@ -275,9 +276,9 @@ public final class BoxTest {
     }
 
     private static void heads() {
-        Check.says("124 (PLACE: where the head is told to be, 2^31 - 1 if that is more) the head, or what stands behind it, "
-                + "goes beyond where the rows begin, or the head is not its number, 20, 0, method, time, ROUND, both sizes, "
-                + "how long, 0, NAME, as told in the row");
+        Check.says("124 (PLACE: where the head is told to be, 2^31 - 1 if that is more) the head, or what stands "
+                + "behind it, goes beyond where the rows begin, or the head is not its number, 20, 0, method, "
+                + "time, ROUND, both sizes, how long, 0, NAME, as told in the row");
         for (int i = 0; i <= 30; i++) {
             faults("the head at " + i, with(i, 99), 124, 0, 0);
         }
@@ -333,8 +334,8 @@ public final class BoxTest {
     }
 
     private static void blocks() {
-        Check.says("the RULES of BLOCKS with PLACES in the TRAY (1: where what stands ends; 14: it goes on behind the last "
-                + "block)");
+        Check.says("the RULES of BLOCKS with PLACES in the TRAY (1: where what stands ends; 14: it goes on behind "
+                + "the last block)");
         byte[] packed = Check.hex("4b4c4a0600");
         byte[] facts = Forms.facts(8, 5, Forms.round(TEXT), 5, 3, 1);
         PackingHouse x = Forms.reads("BLOCKS", 13, Forms.boxOf(facts, facts, packed), 1);

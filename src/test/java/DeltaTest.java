@@ -29,8 +29,8 @@ public final class DeltaTest {
     }
 
     private static void deltaRefusals() {
-        Check.says("A new STREAM: the DELTA from a STREAM to another one. -1 there is none, -4 no number is free, or it would "
-                + "have more than 12000 octets.");
+        Check.says("A new STREAM: the DELTA from a STREAM to another one. -1 there is none, -4 no number is free, "
+                + "or it would have more than 12000 octets.");
         PackingHouse x = new PackingHouse();
         int a = Check.streamOf(x, Check.octets("abc"));
         for (int none : new int[] {0, -1, 2, 12, 13, Integer.MIN_VALUE, Integer.MAX_VALUE}) {
@@ -51,8 +51,8 @@ public final class DeltaTest {
     }
 
     private static void applyRefusals() {
-        Check.says("The TRAY as a DELTA from a STREAM: the other one as a new STREAM, or a FAULT. -1 there is none, -4 no "
-                + "number is free.");
+        Check.says("The TRAY as a DELTA from a STREAM: the other one as a new STREAM, or a FAULT. -1 there is "
+                + "none, -4 no number is free.");
         PackingHouse x = new PackingHouse();
         int a = Check.streamOf(x, FIRST);
         Check.tray(x, Check.octets(0, ROUND));
@@ -88,8 +88,8 @@ public final class DeltaTest {
     }
 
     private static void heads() {
-        Check.says("DELTAS: from one text to another: how many octets the other has (SEVENS), and ROUND of the first (4 LOW "
-                + "FIRST)");
+        Check.says("DELTAS: from one text to another: how many octets the other has (SEVENS), and ROUND of the "
+                + "first (4 LOW FIRST)");
         made("both are empty", Forms.NONE, Forms.NONE, Check.octets(0, 0, 0, 0, 0));
         made("the other is empty", FIRST, Forms.NONE, Check.octets(0, ROUND));
         made("the first is empty", Forms.NONE, TEXT3, Check.octets(3, 0, 0, 0, 0, 0, 3, TEXT3));
@@ -100,9 +100,9 @@ public final class DeltaTest {
     private static final byte[] TEXT3 = Check.octets("xyz");
 
     private static void copies() {
-        Check.says("then, from the left of the other: where there is one, the LONGEST of what is alike from there on in the "
-                + "other and from some place on in the first (8 and more octets; of the same length the least place): 1, its "
-                + "length, its place (SEVENS)");
+        Check.says("then, from the left of the other: where there is one, the LONGEST of what is alike from there "
+                + "on in the other and from some place on in the first (8 and more octets; of the same length the "
+                + "least place): 1, its length, its place (SEVENS)");
         byte[] first = Check.octets("0123456789abcdefghij");
         byte[] round = round(first);
         made("itself", first, first, Check.octets(20, round, 1, 20, 0));
@@ -131,8 +131,8 @@ public final class DeltaTest {
     }
 
     private static void others() {
-        Check.says("else octets up to the next place where there is one, at most 200 at once: 0, how many (an octet), and "
-                + "these. Ends with the octets.");
+        Check.says("else octets up to the next place where there is one, at most 200 at once: 0, how many (an "
+                + "octet), and these. Ends with the octets.");
         byte[] first = Check.octets("0123456789abcdefghij");
         byte[] round = round(first);
         made("between", first, Check.octets("xx01234567yy89abcdefghij"),

@@ -64,20 +64,24 @@ public final class LanguageTest {
 
     private static void comments() throws Exception {
         String text = Files.readString(Path.of("src/main/java/PackingHouse.java"));
-        Check.says("Ahead of the calls `feed`, `fill`, `cut`, `alter`, `octet`, `sum` the interface says: ---- the TRAY.");
+        Check.says("Ahead of the calls `feed`, `fill`, `cut`, `alter`, `octet`, `sum` the interface says: ---- "
+                + "the TRAY.");
         ahead(text, "the TRAY", "feed", "fill", "cut", "alter", "octet", "sum");
         Check.says("Ahead of the calls `length`, `at`, `load`, `drop`, `differ` the interface says: ---- STREAMS.");
         ahead(text, "STREAMS", "length", "at", "load", "drop", "differ");
-        Check.says("Ahead of the calls `pack`, `open`, `fault`, `token`, `bits` the interface says: ---- packing, opening.");
+        Check.says("Ahead of the calls `pack`, `open`, `fault`, `token`, `bits` the interface says: ---- packing, "
+                + "opening.");
         ahead(text, "packing, opening", "pack", "open", "fault", "token", "bits");
-        Check.says("Ahead of the calls `name`, `entry`, `write`, `read`, `told`, `nameAt`, `extract`, `wipe` the interface says: "
-                + "---- SHELVES.");
+        Check.says("Ahead of the calls `name`, `entry`, `write`, `read`, `told`, `nameAt`, `extract`, `wipe` the "
+                + "interface says: ---- SHELVES.");
         ahead(text, "SHELVES", "name", "entry", "write", "read", "told", "nameAt", "extract", "wipe");
         Check.says("Ahead of the calls `delta`, `apply` the interface says: ---- DELTAS.");
         ahead(text, "DELTAS", "delta", "apply");
-        Check.says("Ahead of the calls `protect`, `part`, `lose`, `spoil`, `repair`, `whole` the interface says: ---- PARTS.");
+        Check.says("Ahead of the calls `protect`, `part`, `lose`, `spoil`, `repair`, `whole` the interface says: "
+                + "---- PARTS.");
         ahead(text, "PARTS", "protect", "part", "lose", "spoil", "repair", "whole");
-        Check.says("Ahead of the calls `save`, `restore`, `forget`, `shared`, `store` the interface says: ---- the STORE.");
+        Check.says("Ahead of the calls `save`, `restore`, `forget`, `shared`, `store` the interface says: ---- "
+                + "the STORE.");
         ahead(text, "the STORE", "save", "restore", "forget", "shared", "store");
     }
 

@@ -39,8 +39,8 @@ public final class PackTest {
     }
 
     private static void levels() {
-        Check.says("PACKING by a KIND 1 .. 10, with a level 0 .. 4 for KINDS 3, 4, 5 (0 for others): the STREAM, the "
-                + "least number that is free.");
+        Check.says("PACKING by a KIND 1 .. 10, with a level 0 .. 4 for KINDS 3, 4, 5 (0 for others): the STREAM, "
+                + "the least number that is free.");
         PackingHouse x = Check.house(Check.octets("abcabcabc"));
         for (int kind = 1; kind <= 10; kind++) {
             boolean levels = kind >= 3 && kind <= 5;
@@ -89,8 +89,9 @@ public final class PackTest {
     }
 
     private static void bitRows() {
-        Check.says("A LOW ROW of bits fills octets from their lowest bit up, a HIGH ROW from their highest bit down; a "
-                + "number of n bits stands in a LOW ROW with its lowest bit first, in a HIGH ROW with its highest first.");
+        Check.says("A LOW ROW of bits fills octets from their lowest bit up, a HIGH ROW from their highest bit "
+                + "down; a number of n bits stands in a LOW ROW with its lowest bit first, in a HIGH ROW with its "
+                + "highest first.");
         // WORDS are a LOW ROW: 256 and 257 in 9 bits each
         Check.packs("a LOW ROW", 2, 0, Forms.NONE, Check.octets(0x00, 0x03, 0x02));
         Check.packs("a HIGH ROW", 9, 0, Forms.NONE, Check.hex("425a683117724538509000000000"));
@@ -201,8 +202,8 @@ public final class PackTest {
     private static void words() {
         Check.says("PACKING: CLEAR (9 bits)");
         Check.packs("none", 2, 0, Forms.NONE, wordRow().number(257, 9).octets());
-        Check.says("the longest entry, or octet, that the text goes on with, each time (also the entry that this code "
-                + "itself makes)");
+        Check.says("the longest entry, or octet, that the text goes on with, each time (also the entry that this "
+                + "code itself makes)");
         Check.packs("the entry that the code makes", 2, 0, Check.octets("aaaa"),
                 wordRow().number('a', 9).number(258, 9).number('a', 9).number(257, 9).octets());
         Check.packs("two of them", 2, 0, Check.octets("aaaaaa"),
@@ -219,8 +220,8 @@ public final class PackTest {
     }
 
     private static void wordWidths() {
-        Check.says("Code number k, and what comes in its place, has the least width from 9 to 12 in which 257 + k can be "
-                + "written.");
+        Check.says("Code number k, and what comes in its place, has the least width from 9 to 12 in which 257 + k "
+                + "can be written.");
         for (int many : new int[] {254, 255, 256, 766, 767, 768, 1790, 1791, 1792}) {
             byte[] text = Forms.pairs(many);
             BitRow row = wordRow();
@@ -254,8 +255,8 @@ public final class PackTest {
     private static void fast() {
         Check.says("an empty text is the octet 0.");
         Check.packs("none", 6, 0, Forms.NONE, Check.octets(0));
-        Check.says("SEQUENCES: an octet, its high four bits how many literals, its low ones a match's length less 4; 15 in the high "
-                + "ones: octets follow, to be added, up to one below 255; the literals");
+        Check.says("SEQUENCES: an octet, its high four bits how many literals, its low ones a match's length less "
+                + "4; 15 in the high ones: octets follow, to be added, up to one below 255; the literals");
         byte[] others = Forms.pairs(600);
         Check.packs("3 literals", 6, 0, Check.octets("abc"), Check.octets(48, "abc"));
         Check.packs("14 literals", 6, 0, Arrays.copyOf(others, 14), Check.octets(224, Arrays.copyOf(others, 14)));
@@ -286,8 +287,8 @@ public final class PackTest {
     }
 
     private static void fastEdges() {
-        Check.says("PACKING: GREEDY (4 and more, reach 65535), where a match begins at 12 or more before the end and ends "
-                + "at 5 or more before it (the LONGEST one is cut there; below 4 it is none)");
+        Check.says("PACKING: GREEDY (4 and more, reach 65535), where a match begins at 12 or more before the end "
+                + "and ends at 5 or more before it (the LONGEST one is cut there; below 4 it is none)");
         Check.packs("12 alike", 6, 0, Check.times('a', 12), Check.octets(192, Check.times('a', 12)));
         Check.packs("13 alike", 6, 0, Check.times('a', 13), Check.octets(19, "a", 1, 0, 80, "aaaaa"));
         // a match of 4 at 12 before the end, and at 11 before it
@@ -310,8 +311,8 @@ public final class PackTest {
     }
 
     private static void frame() {
-        Check.says("PACKING: FLAGS 100, the octet behind 64; a text that is not empty in one block, as it is if FAST is "
-                + "not shorter; the sum of all.");
+        Check.says("PACKING: FLAGS 100, the octet behind 64; a text that is not empty in one block, as it is if "
+                + "FAST is not shorter; the sum of all.");
         byte[] head = Check.hex("04224d186440a7");
         Check.packs("none", 7, 0, Forms.NONE, Check.octets(head, 0, 0, 0, 0, Check.hex("055dcc02")));
         Check.packs("as it is", 7, 0, Check.octets("abc"),
@@ -328,8 +329,8 @@ public final class PackTest {
     }
 
     private static void copies() {
-        Check.says("how many octets come out, in SEVENS: octets of 7 bits, the lowest first, with 128 in all but the "
-                + "last, at most 5.");
+        Check.says("how many octets come out, in SEVENS: octets of 7 bits, the lowest first, with 128 in all but "
+                + "the last, at most 5.");
         Check.packs("none", 8, 0, Forms.NONE, Check.octets(0));
         byte[] text = Forms.pairs(300);
         Check.packs("127", 8, 0, Arrays.copyOf(text, 127), Check.octets(127, 240, 126, Arrays.copyOf(text, 127)));
@@ -407,9 +408,10 @@ public final class PackTest {
     }
 
     private static void odds() {
-        Check.says("KIND 10, ODDS: how many octets, 2 HIGH FIRST; then bits by a RANGE of 32 bits (all 1 at first) and a LOW "
-                + "(0): each octet by 8 bits, the highest first, each with ODDS of its own, by the octet before (0 at first) "
-                + "and the bits of this one that came before: a number of 11 bits, 1024 at first.");
+        Check.says("KIND 10, ODDS: how many octets, 2 HIGH FIRST; then bits by a RANGE of 32 bits (all 1 at "
+                + "first) and a LOW (0): each octet by 8 bits, the highest first, each with ODDS of its own, by "
+                + "the octet before (0 at first) and the bits of this one that came before: a number of 11 bits, "
+                + "1024 at first.");
         Check.packs("none", 10, 0, Forms.NONE, Check.octets(0, 0, 0, 0, 0, 0));
         // eight bits of 0, with odds of their own each: the RANGE is halved, LOW stays 0
         Check.packs("a 0", 10, 0, Check.octets(0), Check.octets(0, 1, 0, 0, 0, 0, 0));
@@ -417,9 +419,9 @@ public final class PackTest {
             byte[] text = Forms.filled(Forms.NONE, 0, n, n);
             Check.packs("of " + n, 10, 0, text, naiveOdds(text));
         }
-        Check.says("A bit: bound = (RANGE / 2048) * odds. 0: RANGE is bound, odds are more by (2048 - odds) / 32; 1: LOW "
-                + "is more by bound, RANGE less, odds less by odds / 32 (all rounded down). While RANGE is below 2^24: the "
-                + "highest octet of LOW goes out, LOW is the rest times 256, RANGE times 256.");
+        Check.says("A bit: bound = (RANGE / 2048) * odds. 0: RANGE is bound, odds are more by (2048 - odds) / 32; "
+                + "1: LOW is more by bound, RANGE less, odds less by odds / 32 (all rounded down). While RANGE is "
+                + "below 2^24: the highest octet of LOW goes out, LOW is the rest times 256, RANGE times 256.");
         for (int v = 0; v < 256; v++) {
             Check.packs("one octet " + v, 10, 0, Check.octets(v), naiveOdds(Check.octets(v)));
         }

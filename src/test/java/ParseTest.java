@@ -44,9 +44,9 @@ public final class ParseTest {
     }
 
     private static void longest() {
-        Check.says("The LONGEST match at a place of a text, from a least length to a most one, with distances up to a "
-                + "reach: octets from that place on that are like those from a place less by the distance on (which may run "
-                + "into each other)");
+        Check.says("The LONGEST match at a place of a text, from a least length to a most one, with distances up "
+                + "to a reach: octets from that place on that are like those from a place less by the distance on "
+                + "(which may run into each other)");
         parses("into each other", 1, "aaaaaaa", "1 6@1");
         parses("into each other by 2", 1, "abababab", "1 1 6@2");
         parses("not into each other", 1, "abcabc", "1 1 1 3@3");
@@ -109,8 +109,8 @@ public final class ParseTest {
         parses("a match is cheaper than three literals", 3, "abcabc", "1 1 1 3@3");
         // two literals of 9 bits and one of 8 or a match of 7 + 5 bits
         parses("alike", 3, "aaaaaaa", "1 6@1");
-        Check.says("of these, from the left, a literal where one is possible, else the least length, with the least "
-                + "distance for it.");
+        Check.says("of these, from the left, a literal where one is possible, else the least length, with the "
+                + "least distance for it.");
         // a literal and 258 are as many bits as 258 and a literal
         parses("a literal first", 3, 3, Check.times('a', 260), "1 1 258@1");
         parses("two literals first", 3, 3, Check.times('a', 261), "1 1 1 258@1");
@@ -208,8 +208,8 @@ public final class ParseTest {
     }
 
     private static void spans() {
-        Check.says("GREEDY over the whole text, but that no match goes beyond its block (the LONGEST one is cut there; "
-                + "below 3 it is none).");
+        Check.says("GREEDY over the whole text, but that no match goes beyond its block (the LONGEST one is cut "
+                + "there; below 3 it is none).");
         parses("2000 alike", 3, 4, Check.times('q', 2000), "1 " + "258@1 ".repeat(7) + "193@1");
         parses("2001 alike", 3, 4, Check.times('q', 2001), "1 " + "258@1 ".repeat(7) + "193@1 1");
         parses("2003 alike", 3, 4, Check.times('q', 2003), "1 " + "258@1 ".repeat(7) + "193@1 3@1");
@@ -282,7 +282,8 @@ public final class ParseTest {
     }
 
     private static void tokens() {
-        Check.says("token i, from 0 on: what = 0 its length (1: a literal), 1 its distance (0), 2 the place in the text.");
+        Check.says("token i, from 0 on: what = 0 its length (1: a literal), 1 its distance (0), 2 the place in "
+                + "the text.");
         PackingHouse x = Check.house(Check.octets("abcdeabcdefgabcdefg"));
         Check.due("pack", x.pack(3, 1), 1);
         int[][] want = {{1, 0, 0}, {1, 0, 1}, {1, 0, 2}, {1, 0, 3}, {1, 0, 4}, {5, 5, 5}, {1, 0, 10}, {1, 0, 11},
@@ -300,7 +301,8 @@ public final class ParseTest {
     }
 
     private static void tokenEdges() {
-        Check.says("With i = -1 (any what): how many there are, 0 after others. -1 there is none, -2 no such what.");
+        Check.says("With i = -1 (any what): how many there are, 0 after others. -1 there is none, -2 no such "
+                + "what.");
         PackingHouse x = Check.house(Check.octets("abcdeabcde"));
         x.pack(3, 1);
         for (int what : new int[] {0, 1, 2, 3, -1, 99, Integer.MIN_VALUE, Integer.MAX_VALUE}) {
@@ -320,8 +322,8 @@ public final class ParseTest {
     }
 
     private static void lasting() {
-        Check.says("The parse of the last pack() that was not refused, over the whole text, if it was by a KIND 3, 4, 5 "
-                + "with a level above 0, or by 6, 7, 8");
+        Check.says("The parse of the last pack() that was not refused, over the whole text, if it was by a KIND "
+                + "3, 4, 5 with a level above 0, or by 6, 7, 8");
         for (int kind = 1; kind <= 10; kind++) {
             for (int level = 0; level <= (kind >= 3 && kind <= 5 ? 4 : 0); level++) {
                 PackingHouse x = Check.house(Check.times('a', 30));

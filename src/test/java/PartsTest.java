@@ -51,8 +51,8 @@ public final class PartsTest {
     }
 
     private static void sizes() {
-        Check.says("A SET: N data parts (1 .. 32) of the same size, the least with which the TRAY fits (1 at least), filled "
-                + "with 0, and K checks (0 .. 16).");
+        Check.says("A SET: N data parts (1 .. 32) of the same size, the least with which the TRAY fits (1 at "
+                + "least), filled with 0, and K checks (0 .. 16).");
         int[][] want = {{0, 1, 1}, {0, 32, 1}, {1, 1, 1}, {1, 32, 1}, {7, 3, 3}, {6, 3, 2}, {7, 7, 1}, {7, 8, 1},
             {31, 32, 1}, {32, 32, 1}, {33, 32, 2}, {6000, 1, 6000}, {6000, 2, 3000}, {5999, 2, 3000}, {6000, 7, 858},
             {6000, 32, 188}, {5984, 32, 187}, {5985, 32, 188}};
@@ -120,9 +120,9 @@ public final class PartsTest {
     }
 
     private static void checks() {
-        Check.says("Octet i of check j (0, 1, ..) is the sum, bit by bit, over the data parts d (0, 1, ..) of octet i of "
-                + "these times 1 / (d xor (255 - j)): octets are polynomials, whose products are taken mod x^8 + x^4 + x^3 + "
-                + "x^2 + 1.");
+        Check.says("Octet i of check j (0, 1, ..) is the sum, bit by bit, over the data parts d (0, 1, ..) of "
+                + "octet i of these times 1 / (d xor (255 - j)): octets are polynomials, whose products are taken "
+                + "mod x^8 + x^4 + x^3 + x^2 + 1.");
         for (int data : new int[] {1, 5, 32}) {
             PackingHouse x = new PackingHouse();
             x.fill(0, 3 * data, 4);
@@ -143,8 +143,8 @@ public final class PartsTest {
     }
 
     private static void parts() {
-        Check.says("Octet i of a part (data, then checks, from 0 on); of one that is lost 0. -1 there is no SET, part, or "
-                + "octet.");
+        Check.says("Octet i of a part (data, then checks, from 0 on); of one that is lost 0. -1 there is no SET, "
+                + "part, or octet.");
         PackingHouse x = Check.house(Check.octets("abcdef"));
         Check.due("no SET", x.part(0, 0), -1);
         x.protect(2, 1);
@@ -274,8 +274,8 @@ public final class PartsTest {
     }
 
     private static void repairing() {
-        Check.says("if there are no more than K, each data part that is GONE is had again, from the other ones as they are "
-                + "and as many checks");
+        Check.says("if there are no more than K, each data part that is GONE is had again, from the other ones as "
+                + "they are and as many checks");
         for (int data : new int[] {1, 2, 5, 16, 32}) {
             for (int checks : new int[] {1, 2, 7, 16}) {
                 PackingHouse x = new PackingHouse();
@@ -346,8 +346,8 @@ public final class PartsTest {
     }
 
     private static void roundStays() {
-        Check.says("(The ROUND that is told for a part stays: what was had again by spoiled parts that are not GONE may be "
-                + "GONE at once.)");
+        Check.says("(The ROUND that is told for a part stays: what was had again by spoiled parts that are not "
+                + "GONE may be GONE at once.)");
         PackingHouse x = Check.house(Check.octets("abcdefghijkl"));
         x.protect(2, 1);
         turnUnseen(x, 0);
@@ -390,8 +390,8 @@ public final class PartsTest {
     }
 
     private static void whole() {
-        Check.says("A new STREAM with the octets of the data parts, one part behind the other, as they are (a spoiled one "
-                + "that is not GONE as it was spoiled), as many as the TRAY had.");
+        Check.says("A new STREAM with the octets of the data parts, one part behind the other, as they are (a "
+                + "spoiled one that is not GONE as it was spoiled), as many as the TRAY had.");
         for (int n : new int[] {0, 1, 6, 7, 31, 32, 33}) {
             for (int data : new int[] {1, 3, 32}) {
                 PackingHouse x = new PackingHouse();

@@ -6,8 +6,8 @@ public final class RefusalsTest {
     private static final int LONG = 4;
 
     public static void main(String[] args) {
-        Check.says("ANSWERS below 0 are refusals and change nothing: -1 there is no such thing, -2 outside the range, -3 "
-                + "not in this state, -4 no room");
+        Check.says("ANSWERS below 0 are refusals and change nothing: -1 there is no such thing, -2 outside the "
+                + "range, -3 not in this state, -4 no room");
         tray();
         streams();
         packing();

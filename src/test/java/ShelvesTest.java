@@ -85,8 +85,8 @@ public final class ShelvesTest {
     }
 
     private static void entryEdges() {
-        Check.says("-1 there is no such STREAM, -2 mode or time, or the NAME is empty, -4 there are 16, or it has more than "
-                + "6000.");
+        Check.says("-1 there is no such STREAM, -2 mode or time, or the NAME is empty, -4 there are 16, or it has "
+                + "more than 6000.");
         PackingHouse x = new PackingHouse();
         int s = Check.streamOf(x, Check.octets("abc"));
         Check.due("no NAME", x.entry(s, 0, 0), -2);
@@ -122,8 +122,8 @@ public final class ShelvesTest {
     }
 
     private static void limits() {
-        Check.says("SHELVES have ENTRIES 0 .. 15: a NAME of 1 to 100 octets (none is 0), a mode (0 .. 511), a time (0 .. "
-                + "2^31 - 1), and a text of at most 6000 octets.");
+        Check.says("SHELVES have ENTRIES 0 .. 15: a NAME of 1 to 100 octets (none is 0), a mode (0 .. 511), a "
+                + "time (0 .. 2^31 - 1), and a text of at most 6000 octets.");
         PackingHouse x = new PackingHouse();
         int most = Check.longStream(x, 9, 6000);
         Forms.nameOf(x, "n".repeat(100));
@@ -144,8 +144,8 @@ public final class ShelvesTest {
     }
 
     private static void unsafe() {
-        Check.says("UNSAFE is a NAME that begins with 47 (/), has 92 or 58 in it, or a piece between two 47s (or an end) "
-                + "that is 46, 46.");
+        Check.says("UNSAFE is a NAME that begins with 47 (/), has 92 or 58 in it, or a piece between two 47s (or "
+                + "an end) that is 46, 46.");
         String[] yes = {"/", "/a", "\\", "a\\b", "a\\", ":", "a:", ":a", "..", "../a", "a/..", "a/../b", "../", "a/b/..",
             "../..", "a//../b", "/..", "x/" + "y".repeat(95) + "/.."};
         String[] no = {"a", "a/b", "a/", ".", "...", "....", "a..", "..a", "a../b", "a/...", "./a", "a/.", "a//b",
@@ -165,8 +165,9 @@ public final class ShelvesTest {
     }
 
     private static void writeKinds() {
-        Check.says("The ENTRIES as a KIND 11 .. 13, with a level 0 .. 4 for 13 (0 for others): the STREAM. -2 no such kind, "
-                + "or level; -3 a NAME can not be written; -4 no number is free, or it would have more than 12000 octets.");
+        Check.says("The ENTRIES as a KIND 11 .. 13, with a level 0 .. 4 for 13 (0 for others): the STREAM. -2 no "
+                + "such kind, or level; -3 a NAME can not be written; -4 no number is free, or it would have more "
+                + "than 12000 octets.");
         PackingHouse x = new PackingHouse();
         for (int kind : new int[] {10, 14, 0, -1, 1, Integer.MIN_VALUE, Integer.MAX_VALUE}) {
             Check.due("kind " + kind, x.write(kind, 0), -2);
@@ -243,8 +244,8 @@ public final class ShelvesTest {
     }
 
     private static void readKinds() {
-        Check.says("READING of the TRAY as a KIND 11 .. 13: how many ENTRIES there are then; or a FAULT (the ENTRIES stay). "
-                + "-2 no such kind.");
+        Check.says("READING of the TRAY as a KIND 11 .. 13: how many ENTRIES there are then; or a FAULT (the "
+                + "ENTRIES stay). -2 no such kind.");
         PackingHouse x = new PackingHouse();
         for (int kind : new int[] {10, 14, 0, -1, Integer.MIN_VALUE, Integer.MAX_VALUE}) {
             Check.due("kind " + kind, x.read(kind), -2);
@@ -293,8 +294,8 @@ public final class ShelvesTest {
     }
 
     private static void told() {
-        Check.says("Of an ENTRY: what = 0 its size, 1 mode, 2 time, 3 how long its NAME is, 4 whether that is UNSAFE. -1 "
-                + "there is none, -2 no such what.");
+        Check.says("Of an ENTRY: what = 0 its size, 1 mode, 2 time, 3 how long its NAME is, 4 whether that is "
+                + "UNSAFE. -1 there is none, -2 no such what.");
         PackingHouse x = new PackingHouse();
         Check.due("none yet", x.told(0, 0), -1);
         Forms.put(x, "../n", Check.octets("abc"), 420, 7);

@@ -80,8 +80,8 @@ public final class SortedTest {
     }
 
     private static void packRotations() {
-        Check.says("all rotations of RUNS, sorted as octets (of the same ones the one that begins first), T their last "
-                + "octets, ORIGIN the place of the one that begins at 0.");
+        Check.says("all rotations of RUNS, sorted as octets (of the same ones the one that begins first), T their "
+                + "last octets, ORIGIN the place of the one that begins at 0.");
         SortedBlock banana = block(Check.octets("banana"));
         Check.due("T", banana.row, Check.octets("nnbaaa"));
         Check.due("ORIGIN", banana.origin, 3);
@@ -136,7 +136,8 @@ public final class SortedTest {
     }
 
     private static void packCodes() {
-        Check.says("Two codes with the same lengths, by counts (of all symbols, m + 1 once; each at least 1), limit 17");
+        Check.says("Two codes with the same lengths, by counts (of all symbols, m + 1 once; each at least 1), "
+                + "limit 17");
         for (int n : new int[] {1, 2, 30, 500, 2000}) {
             for (int kind = 0; kind < 4; kind++) {
                 SortedBlock block = block(Forms.filled(Forms.NONE, kind, n, n + kind));
@@ -194,8 +195,8 @@ public final class SortedTest {
     }
 
     private static void packEnd() {
-        Check.says("The end: 48 bits 0x177245385090, and 32 bits: for each block the number (0 at first) is rotated left "
-                + "by 1, and that block's TURNED added bit by bit.");
+        Check.says("The end: 48 bits 0x177245385090, and 32 bits: for each block the number (0 at first) is "
+                + "rotated left by 1, and that block's TURNED added bit by bit.");
         byte[] text = Forms.filled(Forms.NONE, 2, 4100, 6);
         PackingHouse x = Check.house(text);
         x.pack(9, 0);
@@ -304,8 +305,8 @@ public final class SortedTest {
         }
         BitRow row = oneSign().number(2, 3).number(2, 15).code("10").code("11");
         Check.faults("the second one", 9, row.octets(), 86, row.place(), 0);
-        Check.says("each tells a place in a row of the codes (at first in their order), of which it goes to the front "
-                + "then, as so many 1s, and a 0");
+        Check.says("each tells a place in a row of the codes (at first in their order), of which it goes to the "
+                + "front then, as so many 1s, and a 0");
         // three codes; choices 2, 2, 1: the third, the second, the third
         row = Forms.sortedBegin(0, 0).number(0x8000 >> 6, 16).number(0x6000, 16).number(3, 3).number(3, 15)
                 .code("110").code("110").code("10");
@@ -330,8 +331,8 @@ public final class SortedTest {
 
     /** A block that was packed, written anew with six codes that are chosen in many ways. */
     private static void sixCodes() {
-        Check.says("3 bits: how many codes, 2 .. 6; 15 bits: how many CHOICES; each tells a place in a row of the codes (at first "
-                + "in their order), of which it goes to the front then, as so many 1s, and a 0");
+        Check.says("3 bits: how many codes, 2 .. 6; 15 bits: how many CHOICES; each tells a place in a row of the "
+                + "codes (at first in their order), of which it goes to the front then, as so many 1s, and a 0");
         byte[] text = Forms.filled(Forms.NONE, 0, 1900, 4);
         for (int i = 0; i < text.length; i++) {
             // never four alike: so that SIGNS are 97 and 98 alone
@@ -449,8 +450,8 @@ public final class SortedTest {
     }
 
     private static void longRows() {
-        Check.says("13 also when T would have more than 15000 octets (a run of which only a part fits: when its number is "
-                + "whole; digits: as soon as the number is above 15000).");
+        Check.says("13 also when T would have more than 15000 octets (a run of which only a part fits: when its "
+                + "number is whole; digits: as soon as the number is above 15000).");
         BitRow row = digits(Forms.sortedBlock(Forms.sortedHead(), 0, 0, 1), digitsOf(15000)).code("11");
         int place = row.place();
         // 15000 'a' are RUNS of four and 97 more each: 3000 of 101
@@ -490,9 +491,10 @@ public final class SortedTest {
     }
 
     private static void byHand() {
-        Check.says("A block: 48 bits 0x314159265359; 32 TURNED of the block's text; 1 bit, 0; 24 bits, the ORIGIN; 16 bits, the "
-                + "highest first: which sixteens of octets are there; for each of these 16 bits: which octets; these are SIGNS "
-                + "0 .. m - 1 in their order; 3 bits: how many codes, 2 .. 6; 15 bits: how many CHOICES");
+        Check.says("A block: 48 bits 0x314159265359; 32 TURNED of the block's text; 1 bit, 0; 24 bits, the "
+                + "ORIGIN; 16 bits, the highest first: which sixteens of octets are there; for each of these 16 "
+                + "bits: which octets; these are SIGNS 0 .. m - 1 in their order; 3 bits: how many codes, 2 .. 6; "
+                + "15 bits: how many CHOICES");
         byte[] edges = Check.octets(0, 15, 16, 255);
         SortedBlock block = block(edges);
         Check.due("SIGNS at the ends of sixteens", block.signs.toString(), "[0, 15, 16, 255]");
@@ -502,15 +504,15 @@ public final class SortedTest {
             PackingHouse x = Check.house(text);
             Check.opens("they come back", 9, Check.stream(x, x.pack(9, 0)), text);
         }
-        Check.says("the codes: 5 bits, a length; for each symbol of 0 .. m + 1 in turn: 0, it has that length; or 10: the "
-                + "length is more by 1, 11: less by 1, and on");
+        Check.says("the codes: 5 bits, a length; for each symbol of 0 .. m + 1 in turn: 0, it has that length; or "
+                + "10: the length is more by 1, 11: less by 1, and on");
         // lengths 1, 2, 2, told from 3 on, up and down
         long turned = Forms.turned(Check.octets(255));
         BitRow row = lengthRow().number(3, 5).code("1111" + "0").code("101110" + "0").code("0").number(2, 5).code("000");
         Check.opens("up and down", 9, Forms.sortedEnd(row.code("0").code("11"), turned).octets(), Check.octets(255));
-        Check.says("Symbols 0, 1: a number in digits of 1 and 2, the lowest first, how often the sign at the front of a row of "
-                + "SIGNS (at first in their order) comes; 2 .. m: the sign at place 1 .. m - 1 goes to the front, and comes; "
-                + "m + 1 ends the block.");
+        Check.says("Symbols 0, 1: a number in digits of 1 and 2, the lowest first, how often the sign at the "
+                + "front of a row of SIGNS (at first in their order) comes; 2 .. m: the sign at place 1 .. m - 1 "
+                + "goes to the front, and comes; m + 1 ends the block.");
         for (int n = 1; n <= 3; n++) {
             byte[] text = Check.times('a', n);
             row = Forms.sortedBlock(Forms.sortedHead(), Forms.turned(text), 0, 1);
@@ -523,9 +525,10 @@ public final class SortedTest {
         byte[] bb = Check.octets("bbb");
         row = Forms.sortedBlock(Forms.sortedHead(), Forms.turned(bb), 0, 1).code("10").code("01").code("11");
         Check.opens("which is at the front then", 9, Forms.sortedEnd(row, Forms.turned(bb)).octets(), bb);
-        Check.says("The row of these, T: the block's RUNS are had from ORIGIN: let the places of T be sorted by their octets (of "
-                + "the same ones in their order); from entry ORIGIN of that order on, so often as T has octets: the octet of T at "
-                + "the place that the entry names, and on with the entry of that number.");
+        Check.says("The row of these, T: the block's RUNS are had from ORIGIN: let the places of T be sorted by "
+                + "their octets (of the same ones in their order); from entry ORIGIN of that order on, so often "
+                + "as T has octets: the octet of T at the place that the entry names, and on with the entry of "
+                + "that number.");
         // T 'ab': from 0 on only entry 0 comes, from 1 on only entry 1
         for (int origin = 0; origin < 2; origin++) {
             byte[] text = Check.times('a' + origin, 2);

@@ -153,8 +153,8 @@ public final class StoreTest {
     }
 
     private static void pieceEnds() {
-        Check.says("it ends behind an octet with which it has 32 or more octets and bits 24 .. 29 of h are all 1, or with "
-                + "which it has 200, or with the text.");
+        Check.says("it ends behind an octet with which it has 32 or more octets and bits 24 .. 29 of h are all 1, "
+                + "or with which it has 200, or with the text.");
         kept("one octet", Check.octets("a"), 1);
         kept("31, and the bits", marked(31, 31), 31);
         kept("31, the bits, and more", marked(31, 40), 40);
@@ -350,8 +350,8 @@ public final class StoreTest {
     }
 
     private static void sharing() {
-        Check.says("How many BLOCKS two SNAPSHOTS have both (each counted once; with itself how many different ones it has). "
-                + "-1 there is none.");
+        Check.says("How many BLOCKS two SNAPSHOTS have both (each counted once; with itself how many different "
+                + "ones it has). -1 there is none.");
         byte[] text = Forms.filled(Forms.NONE, 0, 5000, 9);
         PackingHouse x = new PackingHouse();
         x.fill(0, 5000, 9);

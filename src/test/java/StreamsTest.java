@@ -123,8 +123,8 @@ public final class StreamsTest {
     }
 
     private static void differences() {
-        Check.says("The first octet by which two STREAMS differ (or which only one has); -1 if there is none, or one of "
-                + "them is none.");
+        Check.says("The first octet by which two STREAMS differ (or which only one has); -1 if there is none, or "
+                + "one of them is none.");
         PackingHouse x = new PackingHouse();
         int a = Check.streamOf(x, Check.octets("abcdef"));
         int b = Check.streamOf(x, Check.octets("abcdef"));

@@ -34,14 +34,14 @@ public final class TapeTest {
     }
 
     private static void write() {
-        Check.says("KIND 11, TAPE: for each ENTRY a row of 512 octets: at 0 NAME; 100 mode, 108, 116 0 each (7 figures in "
-                + "eights, and 0); 124 the size, 136 the time (11 figures, and 0)");
+        Check.says("KIND 11, TAPE: for each ENTRY a row of 512 octets: at 0 NAME; 100 mode, 108, 116 0 each (7 "
+                + "figures in eights, and 0); 124 the size, 136 the time (11 figures, and 0)");
         Check.due("the least", written("a", Forms.NONE, 0, 0),
                 tape(Forms.tapeRow("a", "0000000", "00000000000", "00000000000")));
         Check.due("the greatest", written("n".repeat(100), Check.octets("x"), 511, Integer.MAX_VALUE),
                 tape(Forms.tapeRow("n".repeat(100), "0000777", "00000000001", "17777777777"), "x", new byte[511]));
-        Check.says("148 the sum of all octets of the row, these eight as 32: 6 figures, 0, 32; 156 48; 257 \"ustar\", 0, "
-                + "\"00\"; others 0.");
+        Check.says("148 the sum of all octets of the row, these eight as 32: 6 figures, 0, 32; 156 48; 257 "
+                + "\"ustar\", 0, \"00\"; others 0.");
         byte[] got = written("\u00FF".repeat(100), Forms.NONE, 511, 0);
         Check.due("a great sum", new String(Arrays.copyOfRange(got, 148, 156), java.nio.charset.StandardCharsets.ISO_8859_1),
                 String.format("%06o\0 ", Forms.sumOf(got)));
@@ -90,8 +90,8 @@ public final class TapeTest {
     }
 
     private static void figures() {
-        Check.says("Figures in eights: 32s first, one or more figures, up to the end of their octets or to a 0 or 32 (what "
-                + "is behind is not looked at).");
+        Check.says("Figures in eights: 32s first, one or more figures, up to the end of their octets or to a 0 or "
+                + "32 (what is behind is not looked at).");
         PackingHouse x = figures("77777777", "000000000001", "017777777777");
         Check.due("to the end of their octets", x.told(0, 1), 511);
         Check.due("to the end of their octets", x.told(0, 2), Integer.MAX_VALUE);
@@ -262,8 +262,8 @@ public final class TapeTest {
     }
 
     private static void places() {
-        Check.says("PLACE is where the row (of 512, 60, or with that number of 4 octets) begins or is to begin, and for "
-                + "RULE 1 how many octets there are.");
+        Check.says("PLACE is where the row (of 512, 60, or with that number of 4 octets) begins or is to begin, "
+                + "and for RULE 1 how many octets there are.");
         byte[] text = Forms.tapeRow("t", "0", "1001", "0");
         byte[] bad = Forms.tapeRow("b", "x", "0", "0");
         Forms.readFaults("behind a text of 513", 11, tape(text, Check.times('t', 513), new byte[511], bad), 101, 1536, 1);

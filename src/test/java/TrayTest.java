@@ -118,8 +118,8 @@ public final class TrayTest {
     }
 
     private static void fill() {
-        Check.says("N octets by a rule come behind the TRAY: how many it has. For each z (seed at first) is "
-                + "z * 1664525 + 1013904223, 32 bits, r its highest eight");
+        Check.says("N octets by a rule come behind the TRAY: how many it has. For each z (seed at first) is z * "
+                + "1664525 + 1013904223, 32 bits, r its highest eight");
         for (int kind = 0; kind < 4; kind++) {
             for (int seed : new int[] {0, 5, -1, Integer.MIN_VALUE, Integer.MAX_VALUE}) {
                 PackingHouse x = Check.house(Check.octets(9, 8));
@@ -263,8 +263,8 @@ public final class TrayTest {
     }
 
     private static void adler() {
-        Check.says("ADLER: a = 1, b = 0; for each octet a = (a + octet) mod 65521, b = (b + a) mod 65521; "
-                + "b * 65536 + a.");
+        Check.says("ADLER: a = 1, b = 0; for each octet a = (a + octet) mod 65521, b = (b + a) mod 65521; b * "
+                + "65536 + a.");
         Check.due("of none", new PackingHouse().sum(0), 1);
         Check.due("of a 0", Check.house(Check.octets(0)).sum(0), 0x00010001L);
         // 65520 is the greatest one half; one more is 0
@@ -289,16 +289,16 @@ public final class TrayTest {
     }
 
     private static void roundAndTurned() {
-        Check.says("ROUND: a number of 32 bits, all 1 at first; for each octet it is, with the octet added bit by bit "
-                + "(exclusive or), eight times moved right by one, and, if the bit that goes was 1, 0xEDB88320 is added "
-                + "bit by bit; at the end all bits are turned.");
+        Check.says("ROUND: a number of 32 bits, all 1 at first; for each octet it is, with the octet added bit by "
+                + "bit (exclusive or), eight times moved right by one, and, if the bit that goes was 1, "
+                + "0xEDB88320 is added bit by bit; at the end all bits are turned.");
         Check.due("of none", new PackingHouse().sum(1), 0);
         Check.due("of four 255s", Check.house(Check.times(255, 4)).sum(1), 0xFFFFFFFFL);
         for (byte[] text : Check.someTexts()) {
             Check.due("ROUND", Check.house(text).sum(1), Forms.round(text));
         }
-        Check.says("TURNED: likewise, but the octet is added at the highest eight bits, it is moved left, and with a 1 "
-                + "that goes 0x04C11DB7 is added.");
+        Check.says("TURNED: likewise, but the octet is added at the highest eight bits, it is moved left, and "
+                + "with a 1 that goes 0x04C11DB7 is added.");
         Check.due("of none", new PackingHouse().sum(2), 0);
         Check.due("of four 255s", Check.house(Check.times(255, 4)).sum(2), 0xFFFFFFFFL);
         for (byte[] text : Check.someTexts()) {
@@ -308,28 +308,28 @@ public final class TrayTest {
 
     private static void mixed() {
         // these are published
-        Check.says("MIXED, over n octets, in 32 bits that wrap: P1 = 2654435761, P2 = 2246822519, P3 = 3266489917, "
-                + "P4 = 668265263, P5 = 374761393.");
+        Check.says("MIXED, over n octets, in 32 bits that wrap: P1 = 2654435761, P2 = 2246822519, P3 = "
+                + "3266489917, P4 = 668265263, P5 = 374761393.");
         Check.due("of a", Check.house(Check.octets("a")).sum(3), 0x550D7456L);
         Check.due("of abc", Check.house(Check.octets("abc")).sum(3), 0x32D153FFL);
         Check.due("of a sentence", Check.house(Check.octets("Nobody inspects the spammish repetition")).sum(3),
                 0xE2293B2FL);
-        Check.says("If n is 16 or more, four lanes P1 + P2, P2, 0, - P1: of each 16 octets each lane takes four (LOW "
-                + "FIRST), w: lane = rotated(lane + w * P2, 13) * P1; then h is the sum of the lanes, rotated by 1, 7, "
-                + "12, 18.");
+        Check.says("If n is 16 or more, four lanes P1 + P2, P2, 0, - P1: of each 16 octets each lane takes four "
+                + "(LOW FIRST), w: lane = rotated(lane + w * P2, 13) * P1; then h is the sum of the lanes, "
+                + "rotated by 1, 7, 12, 18.");
         for (int n : new int[] {16, 17, 31, 32, 33, 47, 48, 6000}) {
             mixedOf(n);
         }
         Check.says("Else h = P5. h = h + n.");
         Check.due("of none", new PackingHouse().sum(3), 0x02CC5D05L);
         mixedOf(15);
-        Check.says("For each four octets left: h = rotated(h + w * P3, 17) * P4; for each octet left: "
-                + "h = rotated(h + octet * P5, 11) * P1.");
+        Check.says("For each four octets left: h = rotated(h + w * P3, 17) * P4; for each octet left: h = "
+                + "rotated(h + octet * P5, 11) * P1.");
         for (int n : new int[] {1, 2, 3, 4, 5, 7, 8, 11, 12, 13, 18, 19, 20, 23, 28, 30}) {
             mixedOf(n);
         }
-        Check.says("At last h, added bit by bit to itself moved right by 15, is times P2; likewise by 13, times P3; "
-                + "likewise by 16. (Rotated to the left.)");
+        Check.says("At last h, added bit by bit to itself moved right by 15, is times P2; likewise by 13, times "
+                + "P3; likewise by 16. (Rotated to the left.)");
         for (int v = 0; v < 256; v++) {
             Check.due("of " + v, Check.house(Check.octets(v)).sum(3), Forms.mixed(Check.octets(v)));
         }
