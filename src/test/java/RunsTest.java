@@ -11,9 +11,9 @@ import java.util.stream.Stream;
 import java.util.zip.CRC32;
 
 /**
- * Plays the runs under src/test/runs. Their answers were made by a program in another language that was
- * written from the document alone, checks every match by trying all distances, and was itself checked
- * against zlib, gzip, bzip2 and lz4.
+ * Plays the runs under src/test/runs. Their answers were made by two programs in another language (those of the
+ * second are named second-*), each written anew from the document alone and checked against zlib, gzip, bzip2 and
+ * lz4; what they open and read are forms made by hand, each with one thing or more that does not hold.
  */
 public final class RunsTest {
     private static final Map<String, Method> FACE = new HashMap<>();

@@ -8,8 +8,8 @@ import java.util.stream.Collectors;
 import java.util.stream.Stream;
 
 /**
- * Every sentence of the document's Terms and Promises stands in a test, by Check.says(..): one that has none,
- * because it is new or because a test was taken out, is printed.
+ * Every sentence of the document, from its first line to the last promise, stands in a test, by Check.says(..):
+ * one that has none, because it is new or because a test was taken out, is printed.
  */
 public final class SentencesTest {
     private static final Pattern SAYS = Pattern.compile("Check\\.says\\(((?:\\s*\\+?\\s*\"(?:[^\"\\\\]|\\\\.)*\")+)\\)");
@@ -57,8 +57,10 @@ public final class SentencesTest {
     /** What stands between points (but not between two of them) and semicolons. */
     private static List<String> sentences() {
         String text = Check.document();
-        text = text.substring(text.indexOf("## Terms") + 8, text.indexOf("## Not promised"));
-        text = text.replace("```text", "").replace("```", "").replaceAll("## Promise \\d+: [\\w ]+ `[^`]*`: ", "")
+        text = text.substring(text.indexOf("## What it is") + 13, text.indexOf("## Not promised"));
+        // the face is looked at by HouseTest and LanguageTest
+        text = text.replaceAll("## The public face ```java.*?``` ## Terms", "")
+                .replace("```text", "").replace("```", "").replaceAll("## Promise \\d+: [\\w ]+ `[^`]*`: ", "")
                 .replaceAll("KIND \\d+, [A-Z]+: ", "");
         List<String> all = new ArrayList<>();
         for (String piece : text.split("(?<=[^.\\s])\\.\\)?\\s+|;\\s+")) {
