@@ -3508,7 +3508,9 @@ public final class PackingHouse {
                     makeCheck(j);
                 }
             }
-            Arrays.fill(lost, false);
+            for (int p = 0; p < ALL_MOST; p++) {
+                lost[p] = false;
+            }
         }
 
         /** The right half becomes what the left half, by which the checks were made, is turned back with. */

@@ -141,8 +141,23 @@ public final class LanguageTest {
             library.add(calls.group());
         }
         Check.due("the library", library.toString(), "[Arrays.fill, Math.max, Math.min, System.arraycopy]");
+        numbersAlone(code);
         methodLengths(text);
         loops(code);
+    }
+
+    /** Rule 4: Arrays.fill is over arrays of numbers, and a boolean is none. */
+    private static void numbersAlone(String code) {
+        List<Class<?>> all = new ArrayList<>(List.of(PackingHouse.class.getDeclaredClasses()));
+        all.add(PackingHouse.class);
+        for (Class<?> type : all) {
+            for (Field field : type.getDeclaredFields()) {
+                if (field.getType() == boolean[].class) {
+                    Check.holds("filled by a loop: " + field.getName(),
+                            !code.contains("Arrays.fill(" + field.getName() + ","));
+                }
+            }
+        }
     }
 
     private static void methodLengths(String text) {
